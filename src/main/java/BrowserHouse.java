@@ -276,8 +276,8 @@ public final class BrowserHouse {
         if (!isElement(n)) {
             return NONE;
         }
-        int i = tree.nodes[n].find(called);
-        return i < 0 ? NONE : showBytes(tree.nodes[n].values[i]);
+        Bytes held = tree.nodes[n].find(called);
+        return held == null ? NONE : showBytes(held);
     }
 
     public int serialise(int n) {
@@ -548,11 +548,15 @@ public final class BrowserHouse {
 
         /** As a packed NAME; 0 if it is too long, or nothing. */
         long packed() {
-            return size > 8 ? 0 : pack(data, 0, size);
+            long all = 0;
+            for (int i = 0; i < size && size <= 8; i++) {
+                all = all << 8 | data[i];
+            }
+            return all;
         }
 
         boolean is(String text) {
-            return text.length() <= 8 && packed() == pack(text);
+            return size == text.length() && stands(text, data, 0, size);
         }
 
         boolean isNameWhole() {
@@ -578,7 +582,12 @@ public final class BrowserHouse {
         /** The first place with which what begins at from can't go on to be a NAME. */
         static int nameEnd(byte[] d, int from, int to) {
             int i = from;
-            while (i < to && i < from + 8 && (isSmall(d[i]) || i > from && isDigit(d[i]))) {
+            while (i < to && i < from + 8) {
+                boolean isSmall = d[i] >= 'a' && d[i] <= 'z';
+                boolean isDigit = d[i] >= '0' && d[i] <= '9';
+                if (!isSmall && (!isDigit || i == from)) {
+                    return i;
+                }
                 i++;
             }
             return i;
@@ -758,10 +767,22 @@ public final class BrowserHouse {
             }
             if (from == stop) {
                 takePath(base.text, base.siteEnd, base.pathEnd);
-            } else if (!readPath(d, at, stop, d[from] == '/' ? null : base)) {
+                return readTail(d, stop, to, base);
+            }
+            size = ROOM;
+            kept = 0;
+            climbs = 0;
+            if (!takeSegments(d, at, stop, stop)) {
                 return false;
             }
-            return readTail(d, stop, to, from == stop ? base : null);
+            if (d[from] != '/' && !takeSegments(base.text, base.siteEnd, base.lastSlash(), base.pathEnd)) {
+                return false;
+            }
+            if (kept == 0) {
+                takeSegment(d, at, at, false);
+            }
+            takePath(text, size, ROOM);
+            return readTail(d, stop, to, null);
         }
 
         private void takeSite(byte[] d, int from, int to) {
@@ -776,73 +797,55 @@ public final class BrowserHouse {
             size = pathEnd;
         }
 
-        /** SEGMENTS are read from the last to the first, so that a .. is known ahead of what goes with it. */
-        private boolean readPath(byte[] d, int at, int stop, Address base) {
-            size = ROOM;
-            kept = 0;
-            climbs = 0;
-            int end = stop;
-            for (int i = stop - 1; i >= at; i--) {
+        private int lastSlash() {
+            int i = pathEnd - 1;
+            while (i > siteEnd && text[i] != '/') {
+                i--;
+            }
+            return i;
+        }
+
+        /** From the last to the first, so that a .. is known ahead of what goes with it; end is that of the whole row. */
+        private boolean takeSegments(byte[] d, int from, int to, int end) {
+            int stop = to;
+            for (int i = to - 1; i >= from; i--) {
                 if (d[i] == '/') {
-                    if (!takeSegment(d, i + 1, end, end == stop)) {
+                    if (!takeSegment(d, i + 1, stop, stop == end)) {
                         return false;
                     }
-                    end = i;
+                    stop = i;
                 } else if (!isSegmentByte(d[i])) {
                     return false;
                 }
             }
-            if (base != null && !(takeSegment(d, at, end, end == stop) && takeBase(base))) {
-                return false;
-            }
-            if (kept == 0) {
-                keepSegment(d, at, at);
-            }
-            takePath(text, size, ROOM);
-            return true;
+            return stop == from || takeSegment(d, from, stop, stop == end);
         }
 
-        private boolean takeBase(Address base) {
-            int end = base.pathEnd;
-            for (int i = base.pathEnd - 1; i >= base.siteEnd; i--) {
-                if (base.text[i] == '/') {
-                    if (end < base.pathEnd && !takeSegment(base.text, i + 1, end, false)) {
-                        return false;
-                    }
-                    end = i;
-                }
-            }
-            return true;
-        }
-
+        /** Those that stay stand at the far end of the room till their number is known. */
         private boolean takeSegment(byte[] d, int from, int to, boolean isLast) {
             boolean isHere = to - from == 1 && d[from] == '.';
             boolean isUp = to - from == 2 && d[from] == '.' && d[from + 1] == '.';
             if (isUp) {
                 climbs++;
             }
-            if (isHere || isUp) {
-                return !isLast || keepSegment(d, from, from);
+            if ((isHere || isUp) && !isLast) {
+                return true;
             }
-            if (to - from > SEGMENT_LIMIT) {
+            int length = isHere || isUp ? 0 : to - from;
+            if (length > SEGMENT_LIMIT) {
                 return false;
             }
-            if (climbs > 0) {
+            if (!isHere && !isUp && climbs > 0) {
                 climbs--;
                 return true;
             }
-            return keepSegment(d, from, to);
-        }
-
-        /** Kept ones stand at the far end of the room till their number is known. */
-        private boolean keepSegment(byte[] d, int from, int to) {
             if (kept == SEGMENTS) {
                 return false;
             }
             kept++;
-            size -= to - from + 1;
+            size -= length + 1;
             text[size] = '/';
-            System.arraycopy(d, from, text, size + 1, to - from);
+            System.arraycopy(d, from, text, size + 1, length);
             return true;
         }
 
@@ -850,7 +853,7 @@ public final class BrowserHouse {
             int at = from;
             if (at < to && d[at] == '?') {
                 at++;
-                while (at < to && isQueryByte(d[at])) {
+                while (at < to && (isSegmentByte(d[at]) || d[at] == '=' || d[at] == '&' || d[at] == '+')) {
                     at++;
                 }
                 if (at - from - 1 > QUERY_LIMIT || at < to && d[at] != '#') {
@@ -866,7 +869,7 @@ public final class BrowserHouse {
             if (at == to) {
                 return true;
             }
-            if (!Bytes.isName(d, at + 1, to)) {
+            if (at + 1 == to || Bytes.nameEnd(d, at + 1, to) < to) {
                 return false;
             }
             System.arraycopy(d, at, text, size, to - at);
@@ -875,11 +878,7 @@ public final class BrowserHouse {
         }
 
         static boolean isSegmentByte(int c) {
-            return Bytes.isSmall(c) || Bytes.isDigit(c) || c == '.' || c == '-' || c == '_';
-        }
-
-        private static boolean isQueryByte(int c) {
-            return isSegmentByte(c) || c == '=' || c == '&' || c == '+';
+            return c >= 'a' && c <= 'z' || c >= '0' && c <= '9' || c == '.' || c == '-' || c == '_';
         }
     }
 
@@ -1188,6 +1187,7 @@ public final class BrowserHouse {
         private int attributes;
         private final long[] names = new long[ATTRIBUTES];
         private final Bytes[] values = new Bytes[ATTRIBUTES];
+        private boolean isCheck;
         private boolean ticked;
 
         Node() {
@@ -1196,24 +1196,18 @@ public final class BrowserHouse {
             }
         }
 
-        int find(long called) {
+        /** Null if there is no such ATTRIBUTE. */
+        Bytes find(long called) {
             for (int i = 0; i < attributes; i++) {
                 if (names[i] == called) {
-                    return i;
+                    return values[i];
                 }
             }
-            return NONE;
+            return null;
         }
 
-        /** Null if there is no such ATTRIBUTE. */
         Bytes read(String attribute) {
-            int i = find(Bytes.pack(attribute));
-            return i < 0 ? null : values[i];
-        }
-
-        boolean is(String attribute, String text) {
-            Bytes held = read(attribute);
-            return held != null && held.is(text);
+            return find(Bytes.pack(attribute));
         }
 
         /** The empty VALUE of a new ATTRIBUTE; null if there are four. */
@@ -1245,16 +1239,14 @@ public final class BrowserHouse {
             return tag >= IMG && tag <= BUTTON;
         }
 
-        boolean isCheck() {
-            return tag == INPUT && is("type", "check");
-        }
-
         void startInput() {
-            Bytes first = read("value");
+            Bytes first = find(Bytes.pack("value"));
             if (first != null) {
                 setValue(first.data, 0, first.size);
             }
-            ticked = isCheck() && read("checked") != null;
+            Bytes type = find(Bytes.pack("type"));
+            isCheck = type != null && type.is("check");
+            ticked = isCheck && find(Bytes.pack("checked")) != null;
         }
 
         void setValue(byte[] d, int from, int to) {
@@ -1325,19 +1317,17 @@ public final class BrowserHouse {
             made.deep = 0;
             made.attributes = 0;
             made.bytes.clear();
+            made.isCheck = false;
             made.ticked = false;
             births++;
             made.birth = births;
-            if (parent != NONE) {
-                hang(n, nodes[parent]);
-            }
             size++;
             changes++;
-            return n;
-        }
-
-        private void hang(int n, Node over) {
-            nodes[n].deep = over.deep + 1;
+            if (parent == NONE) {
+                return n;
+            }
+            Node over = nodes[parent];
+            made.deep = over.deep + 1;
             if (over.lastKid == NONE) {
                 over.firstKid = n;
             } else {
@@ -1345,6 +1335,7 @@ public final class BrowserHouse {
             }
             over.lastKid = n;
             over.kids++;
+            return n;
         }
 
         /** A NODE with all in it; never THE ROOT. */
@@ -1373,15 +1364,6 @@ public final class BrowserHouse {
             free(gone.place, gone.past);
         }
 
-        private void removeKids(int n) {
-            list();
-            Node over = nodes[n];
-            over.firstKid = NONE;
-            over.lastKid = NONE;
-            over.kids = 0;
-            free(over.place + 1, over.past);
-        }
-
         private void free(int from, int to) {
             for (int k = from; k < to; k++) {
                 nodes[order[k]].tag = NONE;
@@ -1396,7 +1378,11 @@ public final class BrowserHouse {
             if (over.isEmptyTag() || over.deep >= DEEPEST) {
                 return;
             }
-            removeKids(n);
+            list();
+            over.firstKid = NONE;
+            over.lastKid = NONE;
+            over.kids = 0;
+            free(over.place + 1, over.past);
             if (from < to && hasRoom(n)) {
                 int made = grow(n, TEXT, 0);
                 nodes[made].bytes.addAll(d, from, to);
@@ -1406,8 +1392,10 @@ public final class BrowserHouse {
         void setClass(int n, byte[] d, int from, int to) {
             Node of = nodes[n];
             long called = Bytes.pack("class");
-            int i = of.find(called);
-            Bytes held = i < 0 ? of.addAttribute(called) : of.values[i];
+            Bytes held = of.find(called);
+            if (held == null) {
+                held = of.addAttribute(called);
+            }
             if (held != null) {
                 held.clear();
                 held.addAll(d, from, to);
@@ -1427,23 +1415,18 @@ public final class BrowserHouse {
                 nodes[n].place = listed;
                 order[listed] = n;
                 listed++;
-                n = following(n);
+                int next = nodes[n].firstKid;
+                int up = n;
+                while (next == NONE && up != NONE) {
+                    next = nodes[up].nextKid;
+                    up = nodes[up].parent;
+                }
+                n = next;
             }
             for (int k = listed - 1; k >= 0; k--) {
                 Node of = nodes[order[k]];
                 of.past = of.lastKid == NONE ? k + 1 : nodes[of.lastKid].past;
             }
-        }
-
-        private int following(int n) {
-            if (nodes[n].firstKid != NONE) {
-                return nodes[n].firstKid;
-            }
-            int up = n;
-            while (up != NONE && nodes[up].nextKid == NONE) {
-                up = nodes[up].parent;
-            }
-            return up == NONE ? NONE : nodes[up].nextKid;
         }
 
         int kidAt(int n, int i) {
@@ -1471,9 +1454,8 @@ public final class BrowserHouse {
             list();
             long called = Bytes.pack("id");
             for (int k = 0; k < listed; k++) {
-                Node of = nodes[order[k]];
-                int i = of.find(called);
-                if (i >= 0 && of.values[i].packed() == id) {
+                Bytes held = nodes[order[k]].find(called);
+                if (held != null && held.packed() == id) {
                     return order[k];
                 }
             }
@@ -1795,7 +1777,7 @@ public final class BrowserHouse {
         }
 
         private void putAttribute(long called, int place, int from, int to) {
-            Bytes held = tagRead.find(called) == NONE ? tagRead.addAttribute(called) : null;
+            Bytes held = tagRead.find(called) == null ? tagRead.addAttribute(called) : null;
             if (held == null) {
                 tell(2, place);
             } else {
@@ -2246,15 +2228,6 @@ public final class BrowserHouse {
             return Math.max(0, width - 2 * edge);
         }
 
-        /** With margin, as all the edges of a FLOAT that count for others. */
-        int outerEnd() {
-            return y + height + margin;
-        }
-
-        boolean isBeside(int line) {
-            return line >= y - margin && line < outerEnd();
-        }
-
         boolean holds(int px, int py, int rim) {
             return px >= x + rim && px < x + width - rim && py >= y + rim && py < y + height - rim;
         }
@@ -2290,9 +2263,9 @@ public final class BrowserHouse {
         private int[] line = new int[64]; // its ITEMS: a WORD, or -1 less a NODE
         private int lineCount;
         private int lineY;
-        private int lineHeight;
         private int cursor;
         private int right;
+        private int nextEnd; // the least end of the FLOATS beside the LINE; NONE without any
         private boolean isAfterBlank;
         private final int[] floats = new int[NODES]; // those that are put, then those that wait
         private int floatsPut;
@@ -2576,9 +2549,13 @@ public final class BrowserHouse {
                     if (before != null) {
                         lineY += before.below;
                         before = null;
-                        openLine();
+                        openAt(lineY);
                     }
-                    layInLines(m, box);
+                    if (tree.nodes[m].tag == TEXT) {
+                        putWords(tree.nodes[m].bytes, box);
+                    } else {
+                        layInLines(m, box);
+                    }
                 }
                 isFirst = false;
             }
@@ -2595,32 +2572,28 @@ public final class BrowserHouse {
             floatsKnown = 0;
             floatsEnd = own.edge;
             lineCount = 0;
-            lineHeight = 0;
             lineY = own.edge;
             isAfterBlank = false;
-            openLine();
+            openAt(lineY);
         }
 
         private void layInLines(int n, Box box) {
-            int tag = tree.nodes[n].tag;
-            if (tag == TEXT) {
-                putWords(tree.nodes[n].bytes, box);
-            } else if (tag == BR) {
+            if (tree.nodes[n].tag == BR) {
                 if (lineCount == 0) {
                     lineY += LINE * box.size;
-                    openLine();
+                    openAt(lineY);
                 } else {
                     closeLine();
                 }
             } else if (box.kind == Box.PIECE) {
-                putItem(-1 - n, box.width, box.height, box.size);
+                putItem(-1 - n, box.width, box.size);
             } else if (box.kind == Box.BLOCK) {
                 floats[floatsKnown] = n;
                 floatsKnown++;
                 if (lineCount == 0) {
                     putFloat(box);
                     floatsPut++;
-                    openLine();
+                    openAt(lineY);
                 }
             }
         }
@@ -2630,25 +2603,23 @@ public final class BrowserHouse {
             for (int i = box.firstWord; i < box.firstWord + box.words; i++) {
                 int from = words[i * WORD + 1];
                 isAfterBlank = isAfterBlank || from > seen;
-                putItem(i, words[i * WORD + WORD_WIDTH], LINE * box.size, box.size);
+                putItem(i, words[i * WORD + WORD_WIDTH], box.size);
                 seen = from + words[i * WORD + 2];
             }
             isAfterBlank = isAfterBlank || seen < text.size;
         }
 
-        private void putItem(int item, int wide, int high, int size) {
+        private void putItem(int item, int wide, int size) {
             int gap = lineCount > 0 && isAfterBlank ? GAP * size : 0;
             for (int guard = 0; guard <= NODES + 1 && cursor + gap + wide > right; guard++) {
                 if (lineCount > 0) {
                     closeLine();
                     gap = 0;
+                } else if (nextEnd == NONE) {
+                    break;
                 } else {
-                    int next = nextFloatEnd(lineY);
-                    if (next == NONE) {
-                        break;
-                    }
-                    lineY = next;
-                    openLine();
+                    lineY = nextEnd;
+                    openAt(lineY);
                 }
             }
             if (item < 0) {
@@ -2661,7 +2632,6 @@ public final class BrowserHouse {
             }
             line[lineCount] = item;
             lineCount++;
-            lineHeight = Math.max(lineHeight, high);
             cursor += gap + wide;
             isAfterBlank = false;
         }
@@ -2673,7 +2643,11 @@ public final class BrowserHouse {
             }
             int left = Math.max(0, right - cursor);
             int shift = block.align == 0 ? 0 : block.align == 1 ? left / 2 : left;
-            lineY += lineHeight;
+            int highest = 0;
+            for (int i = 0; i < lineCount; i++) {
+                highest = Math.max(highest, line[i] < 0 ? boxes[-1 - line[i]].height : wordHeight(line[i]));
+            }
+            lineY += highest;
             for (int i = 0; i < lineCount; i++) {
                 int item = line[i];
                 if (item < 0) {
@@ -2686,16 +2660,30 @@ public final class BrowserHouse {
                 }
             }
             lineCount = 0;
-            lineHeight = 0;
             for (; floatsPut < floatsKnown; floatsPut++) {
                 putFloat(boxes[floats[floatsPut]]);
             }
-            openLine();
+            openAt(lineY);
         }
 
-        private void openLine() {
-            cursor = leftAt(lineY);
-            right = rightAt(lineY);
+        /** From where to where a LINE at y goes, by the FLOATS that are AT y; nothing may be on the LINE. */
+        private void openAt(int y) {
+            cursor = block.edge;
+            right = Math.max(block.edge, block.width - block.edge);
+            nextEnd = NONE;
+            for (int i = 0; i < floatsPut; i++) {
+                Box box = boxes[floats[i]];
+                int end = box.y + box.height + box.margin;
+                if (y < box.y - box.margin || y >= end) {
+                    continue;
+                }
+                nextEnd = nextEnd == NONE ? end : Math.min(nextEnd, end);
+                if (box.side == 1) {
+                    cursor = Math.max(cursor, box.x + box.width + box.margin);
+                } else {
+                    right = Math.min(right, box.x - box.margin);
+                }
+            }
         }
 
         int wordHeight(int i) {
@@ -2709,50 +2697,14 @@ public final class BrowserHouse {
                 y = Math.max(y, earlier.y - earlier.margin);
             }
             int wide = box.width + 2 * box.margin;
-            for (int guard = 0; guard <= NODES && wide > rightAt(y) - leftAt(y); guard++) {
-                int next = nextFloatEnd(y);
-                if (next == NONE) {
-                    break;
-                }
-                y = next;
+            openAt(y);
+            for (int guard = 0; guard <= NODES && wide > right - cursor && nextEnd != NONE; guard++) {
+                y = nextEnd;
+                openAt(y);
             }
-            box.x = box.side == 1 ? leftAt(y) + box.margin : rightAt(y) - box.margin - box.width;
+            box.x = box.side == 1 ? cursor + box.margin : right - box.margin - box.width;
             box.y = y + box.margin;
-            floatsEnd = Math.max(floatsEnd, box.outerEnd());
-        }
-
-        private int leftAt(int y) {
-            int edge = block.edge;
-            for (int i = 0; i < floatsPut; i++) {
-                Box box = boxes[floats[i]];
-                if (box.side == 1 && box.isBeside(y)) {
-                    edge = Math.max(edge, box.x + box.width + box.margin);
-                }
-            }
-            return edge;
-        }
-
-        private int rightAt(int y) {
-            int edge = block.edge + block.innerWidth();
-            for (int i = 0; i < floatsPut; i++) {
-                Box box = boxes[floats[i]];
-                if (box.side == 2 && box.isBeside(y)) {
-                    edge = Math.min(edge, box.x - box.margin);
-                }
-            }
-            return edge;
-        }
-
-        /** The least end of the FLOATS AT y; NONE without any. */
-        private int nextFloatEnd(int y) {
-            int least = NONE;
-            for (int i = 0; i < floatsPut; i++) {
-                Box box = boxes[floats[i]];
-                if (box.isBeside(y) && (least == NONE || box.outerEnd() < least)) {
-                    least = box.outerEnd();
-                }
-            }
-            return least;
+            floatsEnd = Math.max(floatsEnd, box.y + box.height + box.margin);
         }
 
         private void moveToHolder(Box box) {
@@ -2915,8 +2867,7 @@ public final class BrowserHouse {
         private final Tree tree;
         private final Net net;
         private final Reader reader;
-        private final int[] taskTime = new int[TASKS];
-        private final long[] taskSelf = new long[TASKS];
+        private final long[] tasks = new long[2 * TASKS]; // of each its time, and its self
         private final Bytes[] taskText = new Bytes[TASKS];
         private int taskCount;
         private long focus = NONE;
@@ -2930,6 +2881,7 @@ public final class BrowserHouse {
         private final long[] way = new long[NODES];
         private int wayAt;
         private int wayCount;
+        private int asking = NONE; // the NODE for which a get is still to be FETCHED
         private int cause; // PRESS, or the byte of a key, while an EVENT may still have a DEFAULT; else 0
         private final Bytes scratch = new Bytes(Address.QUERY_LIMIT);
 
@@ -2995,6 +2947,8 @@ public final class BrowserHouse {
                     Answer got = net.arrive();
                     reader.read(got.body, got.body.length);
                     startPage();
+                } else if (asking != NONE) {
+                    finishGet();
                 } else if (stepsLeft == 0) {
                     return;
                 } else if (at < running.size) {
@@ -3026,7 +2980,7 @@ public final class BrowserHouse {
         boolean takeDueTask() {
             int due = NONE;
             for (int i = 0; i < taskCount; i++) {
-                if (taskTime[i] <= net.clock && (due == NONE || taskTime[i] < taskTime[due])) {
+                if (tasks[2 * i] <= net.clock && (due == NONE || tasks[2 * i] < tasks[2 * due])) {
                     due = i;
                 }
             }
@@ -3034,11 +2988,11 @@ public final class BrowserHouse {
                 return false;
             }
             Bytes text = taskText[due];
-            startScript(text, taskSelf[due]);
+            startScript(text, tasks[2 * due + 1]);
             taskCount--;
             for (int i = due; i < taskCount; i++) {
-                taskTime[i] = taskTime[i + 1];
-                taskSelf[i] = taskSelf[i + 1];
+                tasks[2 * i] = tasks[2 * i + 2];
+                tasks[2 * i + 1] = tasks[2 * i + 3];
                 taskText[i] = taskText[i + 1];
             }
             taskText[taskCount] = text;
@@ -3117,8 +3071,8 @@ public final class BrowserHouse {
                 return false;
             }
             if (taskCount < TASKS) {
-                taskTime[taskCount] = net.clock + time;
-                taskSelf[taskCount] = self;
+                tasks[2 * taskCount] = net.clock + time;
+                tasks[2 * taskCount + 1] = self;
                 taskText[taskCount].clear();
                 taskText[taskCount].addAll(d, stop + 1, to);
                 taskCount++;
@@ -3154,7 +3108,7 @@ public final class BrowserHouse {
                     }
                     return true;
                 case DO_GET:
-                    runGet(n, d, stop + 1, to);
+                    asking = net.target.read(d, stop + 1, to, net.here) ? n : NONE;
                     return true;
                 case DO_ADD:
                     return runAdd(n, d, stop + 1, to);
@@ -3182,10 +3136,9 @@ public final class BrowserHouse {
             return true;
         }
 
-        private void runGet(int n, byte[] d, int from, int to) {
-            if (!net.target.read(d, from, to, net.here)) {
-                return;
-            }
+        private void finishGet() {
+            int n = asking;
+            asking = NONE;
             Answer got = net.fetch(net.target);
             if (got.open || net.last.site == net.here.site) {
                 tree.setText(n, got.body, 0, Math.min(got.body.length, GET_LIMIT));
@@ -3230,7 +3183,7 @@ public final class BrowserHouse {
                 return href != null;
             }
             if (of.tag == INPUT) {
-                if (of.isCheck()) {
+                if (of.isCheck) {
                     of.ticked = !of.ticked;
                 } else {
                     focus = tree.markOf(n);
@@ -3274,7 +3227,7 @@ public final class BrowserHouse {
             for (int k = tree.nodes[form].place; k < tree.nodes[form].past; k++) {
                 Node of = tree.nodes[tree.order[k]];
                 Bytes called = of.tag == INPUT ? of.read("name") : null;
-                if (called != null && called.isNameWhole() && (of.ticked || !of.isCheck())) {
+                if (called != null && called.isNameWhole() && (of.ticked || !of.isCheck)) {
                     if (!isFirst) {
                         scratch.add('&');
                     }
@@ -3289,7 +3242,7 @@ public final class BrowserHouse {
         }
 
         private void addSent(Node of) {
-            if (of.isCheck()) {
+            if (of.isCheck) {
                 scratch.addText("on");
                 return;
             }
