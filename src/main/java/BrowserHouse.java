@@ -520,9 +520,15 @@ public final class BrowserHouse {
         }
 
         void addAll(byte[] from, int begin, int stop) {
-            for (int i = begin; i < stop && size < limit; i++) {
-                add(from[i]);
+            int length = Math.min(stop - begin, limit - size);
+            if (length <= 0) {
+                return;
             }
+            if (size + length > data.length) {
+                data = Arrays.copyOf(data, Math.max(2 * data.length, size + length));
+            }
+            System.arraycopy(from, begin, data, size, length);
+            size += length;
         }
 
         void addText(String text) {
@@ -2860,7 +2866,6 @@ public final class BrowserHouse {
         private static final int DO_GO = 5;
         private static final int DO_GET = 6;
         private static final int DO_PUT = 7;
-        private static final int DO_READ = 8;
         private static final int DO_WAIT = 9;
         private static final int DO_STOP = 10;
 
@@ -3113,7 +3118,11 @@ public final class BrowserHouse {
                 case DO_ADD:
                     return runAdd(n, d, stop + 1, to);
                 default:
-                    return runRead(n, d, stop + 1, to);
+                    if (!lookUp(d, stop + 1, to)) {
+                        return false;
+                    }
+                    tree.setText(n, scratch.data, 0, scratch.size);
+                    return true;
             }
         }
 
@@ -3147,13 +3156,13 @@ public final class BrowserHouse {
             }
         }
 
-        private boolean runRead(int n, byte[] d, int from, int to) {
+        /** What THE STORE has for a NAME comes into scratch; false if it is no NAME. */
+        private boolean lookUp(byte[] d, int from, int to) {
             if (!Bytes.isName(d, from, to)) {
                 return false;
             }
             scratch.clear();
             scratch.addPacked(net.readStore(Bytes.pack(d, from, to)));
-            tree.setText(n, scratch.data, 0, scratch.size);
             return true;
         }
 
