@@ -1760,8 +1760,14 @@ public final class BrowserHouse {
                 stop = isQuoted ? quoteEnd(begin, d[begin - 1]) : plainEnd(begin);
                 i = isQuoted ? stop + 1 : stop;
             }
-            if (i < size && !isEnd) {
-                putAttribute(called, from, begin, stop);
+            if (i >= size || isEnd) {
+                return i;
+            }
+            Bytes held = tagRead.find(called) == null ? tagRead.addAttribute(called) : null;
+            if (held == null) {
+                tell(2, from);
+            } else {
+                decode(begin, stop, true, held);
             }
             return i;
         }
@@ -1780,15 +1786,6 @@ public final class BrowserHouse {
                 i++;
             }
             return i;
-        }
-
-        private void putAttribute(long called, int place, int from, int to) {
-            Bytes held = tagRead.find(called) == null ? tagRead.addAttribute(called) : null;
-            if (held == null) {
-                tell(2, place);
-            } else {
-                decode(from, to, true, held);
-            }
         }
 
         private void startTag(long called, int start) {
