@@ -811,7 +811,7 @@ public final class BrowserHouse {
             return i;
         }
 
-        /** From the last to the first, so that a .. is known ahead of what goes with it; end is that of the whole row. */
+        /** From the last to the first, so that a .. is known ahead of what goes with it. */
         private boolean takeSegments(byte[] d, int from, int to, int end) {
             int stop = to;
             for (int i = to - 1; i >= from; i--) {
@@ -978,7 +978,7 @@ public final class BrowserHouse {
             if (!Bytes.stands("//", d, 0, at) || !made.at.read(d, 0, at, here) || made.at.hasMark()) {
                 return WRONG;
             }
-            while (at < size && d[at] == ' ') {
+            for (int guard = 0; guard < size && at < size && d[at] == ' '; guard++) {
                 int from = at + 1;
                 at = fieldEnd(d, from, size);
                 if (!made.readField(d, from, at)) {
@@ -1727,7 +1727,7 @@ public final class BrowserHouse {
             }
             long called = Bytes.packSmall(d, from, i);
             tagRead.attributes = 0;
-            while (i < size && d[i] != '>') {
+            for (int guard = 0; guard < size && i < size && d[i] != '>'; guard++) {
                 i = Bytes.isBlank(d[i]) || d[i] == '/' ? i + 1 : readAttribute(i, isEnd);
             }
             if (i >= size) {
@@ -1937,7 +1937,7 @@ public final class BrowserHouse {
 
         private void readSheet(byte[] d, int size) {
             int from = 0;
-            while (from < size) {
+            for (int guard = 0; guard < size && from < size; guard++) {
                 int stop = indexOf(d, from, size, '}');
                 int brace = indexOf(d, from, stop, '{');
                 if (stop < size && brace < stop && areSelectors(d, from, brace)) {
@@ -1949,7 +1949,7 @@ public final class BrowserHouse {
 
         private boolean areSelectors(byte[] d, int from, int to) {
             int at = from;
-            while (at <= to) {
+            for (int guard = from; guard <= to && at <= to; guard++) {
                 int stop = indexOf(d, at, to, ',');
                 if (!takeSelector(d, at, stop, ASKED)) {
                     return false;
@@ -1967,7 +1967,7 @@ public final class BrowserHouse {
         private void readRule(byte[] d, int from, int brace, int to) {
             int rule = selectors;
             int at = from;
-            while (at <= brace && selectors < SELECTORS) {
+            for (int guard = from; guard <= brace && at <= brace && selectors < SELECTORS; guard++) {
                 int stop = indexOf(d, at, brace, ',');
                 takeSelector(d, at, stop, selectors);
                 ruleOf[selectors] = rule;
@@ -1979,7 +1979,7 @@ public final class BrowserHouse {
             }
             Arrays.fill(declared, rule * PROPERTIES, (rule + 1) * PROPERTIES, NONE);
             at = brace + 1;
-            while (at < to) {
+            for (int guard = at; guard < to && at < to; guard++) {
                 int stop = indexOf(d, at, to, ';');
                 readDeclaration(d, at, stop, rule);
                 at = stop + 1;
@@ -2532,14 +2532,15 @@ public final class BrowserHouse {
             boolean isFirst = true;
             Box before = null;
             int past = tree.nodes[n].past;
-            int k = tree.nodes[n].place + 1;
-            while (k < past) {
+            int next = tree.nodes[n].place + 1;
+            for (int k = next; k < past; k++) {
                 int m = tree.order[k];
                 Box box = boxes[m];
-                k = box.kind == Box.INLINE ? k + 1 : tree.nodes[m].past;
-                if (box.kind == Box.NOT_LAID) {
+                if (k < next || box.kind == Box.NOT_LAID) {
+                    next = Math.max(next, tree.nodes[m].past);
                     continue;
                 }
+                next = box.kind == Box.INLINE ? k + 1 : tree.nodes[m].past;
                 if (box.isBlockInFlow()) {
                     closeLine();
                     int apart = isFirst && own.joinsAbove ? 0 : box.above;
@@ -2817,7 +2818,7 @@ public final class BrowserHouse {
             return isOn ? box.color : box.colorAt(x, y);
         }
 
-        /** Whether a point, told from the upper left corner of a row of bytes, is one of a GLYPH that goes in wholly. */
+        /** Whether a point, told from the corner of a row of bytes, is one of a GLYPH that goes in wholly. */
         private static boolean isLetterOn(Bytes text, int from, int room, int size, int x, int y) {
             int left = 0;
             for (int i = from; i < text.size && left <= x; i++) {
