@@ -136,6 +136,12 @@ public final class LayoutTest {
         h = shown(40, "<style>*{padding:1}</style>x");
         House.due("THE ROOT has padding", h.box(0), "0 0 40 9");
         House.due("and its INNER", h.places(), "1,1");
+        h = shown(30, "<style>p{padding:2;border:1;margin:1}</style><p>aaaa bb</p>");
+        House.due("LINES go as far as the INNER right edge", h.places(), "4,4 4,11");
+        h = shown(31, "<style>p{padding:2;border:1;margin:0}</style><p>aaaa b</p>");
+        House.due("just in", h.places(), "3,3 22,3");
+        h = shown(40, "<style>p{padding:2;border:1;margin:1;align:right}</style><p>aa</p>");
+        House.due("align to the INNER right edge", h.places(), "28,4");
     }
 
     private static void floats() {
@@ -149,6 +155,10 @@ public final class LayoutTest {
         House.due("with margin", h.box(3), "1 1 10 10");
         House.due("beside it", h.places(), "12,0");
         House.due("its end with margin", h.it.box(0, 3), 12);
+        h = shown(40, sheet + "<div class='r m'></div><p class='r m'></p>aaaa bb");
+        House.due("right with margin", h.box(3), "29 1 10 20");
+        House.due("another one beside it", h.box(4), "17 1 10 20");
+        House.due("what is left of them", h.places(), "0,0 0,7");
         h = shown(40, sheet + "aa <div class=l></div>bb");
         House.due("it waits for the LINE's end", h.box(4), "0 7 10 10");
         House.due("the LINE goes on", h.places(), "0,0 11,0");

@@ -131,6 +131,10 @@ public final class PictureTest {
         House.due("not CHECKED", h.it.point(10, 15), 2);
         h.it.press(10, 15);
         House.due("CHECKED now", h.it.point(10, 15), 4);
+        h = shown("<style>p{margin:2}input{width:12;padding:1}</style><p>i<input value=ab></p>");
+        House.due("elsewhere", h.box(5), "4 2 12 11");
+        House.due("a there", seen(h, 6, 4, 3, 1), glyph('a', 3));
+        House.due("b there", seen(h, 10, 4, 3, 1), glyph('b', 3));
         h = shown("<input id=x>");
         h.script("val x a");
         House.due("its VALUE now", seen(h, 1, 1, 3, 1), glyph('a', 3));

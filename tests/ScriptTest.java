@@ -192,6 +192,11 @@ public final class ScriptTest {
         h.script("del x");
         House.due("one whose self went is done all the same", h.it.tick(1), 1);
         House.due("WRONG then", h.it.count(11), 1);
+        h.page("<b onload='wait 1 text self a'></b><i onload='wait 2 text self b'></i><u onload='wait 3 text self c'></u>");
+        h.it.tick(2);
+        House.due("each has its self", h.tree().replaceAll(" onload=\"[^\"]*\"", ""), "<div><b>a</b><i>b</i><u></u></div>");
+        h.it.tick(1);
+        House.due("the last one too", h.tree().replaceAll(" onload=\"[^\"]*\"", ""), "<div><b>a</b><i>b</i><u>c</u></div>");
         h.page("<b id=x>o</b>");
         h.script("wait 0 text x " + "v".repeat(70));
         h.it.tick(0);

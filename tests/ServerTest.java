@@ -111,13 +111,13 @@ public final class ServerTest {
     private static void ninthKept() {
         House h = new House();
         for (int i = 1; i <= 9; i++) {
-            h.server("//home/" + i + " age=99\n" + i);
+            h.server("//home/" + i + (i == 1 ? " age=1\n" : " age=99\n") + i);
         }
         for (int i = 1; i <= 8; i++) {
             h.visit("/" + i);
         }
         House.due("eight are KEPT", h.it.count(4), 8);
-        h.it.tick(99);
+        h.it.tick(1);
         h.visit("/1");
         House.due("KEPT again", h.it.count(4), 8);
         h.visit("/9");
@@ -125,8 +125,14 @@ public final class ServerTest {
         int requests = h.it.count(5);
         h.visit("/1");
         House.due("1 was KEPT anew, so it stays", h.it.count(5), requests);
+        for (int i = 3; i <= 9; i++) {
+            h.visit("/" + i);
+        }
+        House.due("so do the others", h.it.count(5), requests);
         h.visit("/2");
         House.due("2 went", h.it.count(5), requests + 1);
+        h.visit("/3");
+        House.due("and now 3", h.it.count(5), requests + 2);
     }
 
     private static void cookies() {

@@ -150,6 +150,10 @@ public final class StyleTest {
         color("b,#y{color:1}.k{color:2}", 1);
         color("* * *{color:1}b{color:2}", 2);
         color("b{color:1}</style><style>b{color:2}", 2);
+        color("#y{color:1}.k.k.k.k .k.k.k.k{color:2}", 1);
+        color("#x .k{color:1}.k.k.k.k#x .k.k.k{color:2}", 1);
+        color("#x .k{color:1}.k.k.k#x b.k{color:2}", 2);
+        color("b.k{color:1}p .k{color:2}p b.k{color:3}* .k{color:4}", 3);
     }
 
     private static void fixed() {
