@@ -123,6 +123,17 @@ public final class ActsTest {
         h.it.press(2, 2);
         h.script("text p z");
         House.due("a script leaves FOCUS", h.it.count(13), 1);
+        h.it.key('q');
+        h.it.tick(0);
+        House.due("nor does it type", h.value(1), "a value of over twenty-f");
+        h.page("<div id=x></div>");
+        h.script("add x input");
+        h.it.press(2, 2);
+        House.due("an input that came is no check", h.it.count(13), 2);
+        h.script("put a v");
+        h.it.tick(1);
+        h.it.history(5);
+        House.due("other calls are no keys", h.value(2), "");
         h.page("<div id=x><input></div>");
         h.it.press(2, 2);
         h.script("del x;add self input");
@@ -187,6 +198,10 @@ public final class ActsTest {
                 + "<input value=w><input name=d><br><button>k</button></form>");
         h.it.press(2, h.it.box(8, 1) + 2);
         House.due("checks, no NAMES, empty ones; else this page's ADDRESS", h.address(), "//home/t?a=on&d=#m");
+        h.page("<input name=y value=no><form action='/w'><button>k</button></form><input name=z value=no>");
+        h.it.press(2, h.it.box(3, 1) + 2);
+        House.due("only inputs in it", h.address(), "//home/w?");
+        h.visit("//home/t?a=on&d=#m");
         h.page("<form action='NO'><button>k</button></form>");
         h.it.press(2, 2);
         House.due("NO ADDRESS", h.address(), "//home/t?a=on&d=#m");

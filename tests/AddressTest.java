@@ -72,6 +72,8 @@ public final class AddressTest {
             {"#abcdefghi", "-1"},
             {"?" + "a".repeat(40), "//shop/a/b/c?" + "a".repeat(40)},
             {"?" + "a".repeat(41), "-1"},
+            {"d/e/f?" + "a".repeat(40) + "#m", "//shop/a/b/d/e/f?" + "a".repeat(40) + "#m"},
+            {"d/e/f?" + "a".repeat(41), "-1"},
             {"a/../".repeat(300) + "d", "//shop/a/b/d"},
         });
         House.due("a new text", h.resolve("d"), 12);

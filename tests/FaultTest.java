@@ -25,6 +25,8 @@ public final class FaultTest {
         reads("a<!-- x > <b> -->b", "ab", "");
         reads("a<!-->b", "a", "1@1");
         reads("a<!--->b-->c", "ac", "");
+        reads("a<!---->b", "ab", "");
+        reads("<Zz>x</zZ>", "<zz>x</zz>", "");
         reads("<!- a", "&lt;!- a", "");
         reads("</3 <3 </", "&lt;/3 &lt;3 &lt;/", "");
         reads("<B>x</b>", "<b>x</b>", "");
@@ -61,6 +63,9 @@ public final class FaultTest {
         reads("<p>a<p>b", "<p>a</p><p>b</p>", "");
         reads("<p><b><i>x<div>y</div>", "<p><b><i>x</i></b></p><div>y</div>", "4@6 4@3");
         reads("<p>x<hr>y", "<p>x</p><hr>y", "");
+        reads("<p>x<form>y</form>", "<p>x</p><form>y</form>", "");
+        reads("<p>x<h1>y</h1>", "<p>x</p><h1>y</h1>", "");
+        reads("<p>x<ul></ul>", "<p>x</p><ul></ul>", "");
         reads("<p>x<zz>y</zz></p>", "<p>x<zz>y</zz></p>", "");
         reads("<ul><li>a<li>b<ul><li>c</ul><li>d</ul>",
                 "<ul><li>a</li><li>b<ul><li>c</li></ul></li><li>d</li></ul>", "");

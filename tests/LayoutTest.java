@@ -115,6 +115,9 @@ public final class LayoutTest {
         House.due("LINES of nothing between", h.box(6), "5 22 30 7");
         h = shown(40, "<style>p{margin:5}</style><div><div><p>a</p></div></div>");
         House.due("deep", h.box(3), "0 5 40 7");
+        h = shown(40, "<style>p{margin:5}</style><div><p>a</p>x<p>b</p></div>");
+        House.due("only the first thing's TOP has JOINED", h.box(7), "5 29 30 7");
+        h = shown(40, "<style>p{margin:5}</style><div><div><p>a</p></div></div>");
         House.due("THE ROOT's height", h.it.box(0, 3), 17);
     }
 
@@ -191,6 +194,8 @@ public final class LayoutTest {
         h = shown(20, "aaa<img>");
         House.due("onto the next LINE", shown(20, "aaaa<img>").box(2), "0 7 8 8");
         House.due("just in", h.box(2), "12 0 8 8");
+        House.due("behind a blank", shown(40, "aaa <img>").box(2), "15 0 8 8");
+        House.due("a blank of its own size", shown(60, "<style>img{size:3}</style>a <img>").box(4), "13 0 8 8");
     }
 
     private static void inline() {
@@ -216,5 +221,7 @@ public final class LayoutTest {
         House.due("told height", h.box(3), "0 0 40 5");
         House.due("nothing is JOINED", h.box(4), "3 3 4 7");
         House.due("what is behind", h.box(6), "0 5 40 7");
+        h = shown(40, "<style>div{display:flex;border:1}</style><div>text<br></div>");
+        House.due("with nothing in it", h.box(3), "1 1 38 2");
     }
 }

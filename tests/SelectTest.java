@@ -21,13 +21,19 @@ public final class SelectTest {
             House.due("select " + row[0], h.select(row[0]), many);
             House.due("found " + row[0], h.found(), row[1]);
         }
+        h.page("<b id=abcdefgh class='xabcdefgh abcdefghi'></b><b id=xabcdefgh class='m abcdefgh'></b><b id=abcdefghi></b>");
+        House.due("eight bytes of an id", h.select("#abcdefgh"), 1);
+        House.due("that one", h.it.found(0), 1);
+        House.due("eight bytes of a class", h.select(".abcdefgh"), 1);
+        House.due("that other one", h.it.found(0), 2);
+        h.page("<div id=x><p>a</p></div><zz><p>b</p></zz>");
         h.select("p");
         House.due("found(2)", h.it.found(2), -1);
         House.due("found(-1)", h.it.found(-1), -1);
         h.script("del x");
-        House.due("also one that went", h.found(), "2 7");
+        House.due("also one that went", h.found(), "2 5");
         h.page("");
-        House.due("also of another page", h.found(), "2 7");
+        House.due("also of another page", h.found(), "2 5");
         House.due("THE ROOT", h.select("div"), 1);
         House.due("0", h.it.found(0), 0);
         h.script("class self k");

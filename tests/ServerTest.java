@@ -141,12 +141,15 @@ public final class ServerTest {
         h.server("//shop/b cookie=t:two\nx");
         h.server("//shop/c cookie=s:three\nx");
         h.server("//far/a cookie=s:far\nx");
+        h.visit("//thop/a");
         h.visit("//shop/a");
         House.due("as it began", h.it.write(2), 0);
         h.visit("//shop/b");
         House.due("one", h.out(h.it.write(2)), "s=one");
         h.visit("//far/a");
         House.due("of the SITE alone", h.it.write(2), 0);
+        h.visit("//thop/a");
+        House.due("a SITE whose NAME ends alike", h.it.write(2), 0);
         h.visit("//shop/c");
         House.due("in order", h.out(h.it.write(2)), "s=one;t=two");
         h.visit("//shop/z");

@@ -86,6 +86,19 @@ public final class StyleTest {
         is("color:7 8", 1, 63);
         is("color:{7;size:2", 8, 2);
         is("Color:7", 1, 63);
+        is("color=7", 1, 63);
+        is("color7", 1, 63);
+        is("color:0!;color:5", 1, 0);
+        is("height:97", 7, -1);
+        is("height:0", 7, 0);
+        is("padding:21", 4, 0);
+        is("background:0", 2, 0);
+        House h = new House();
+        h.page("<style>h1{size:1;margin:0}ul{padding:0}input{border:0}</style><h1></h1><ul></ul><input>");
+        House.due("the least size", h.it.style(3, 8), 1);
+        House.due("the least margin", h.it.style(3, 3), 0);
+        House.due("the least padding", h.it.style(4, 4), 0);
+        House.due("the least border", h.it.style(5, 5), 0);
     }
 
     private static void rule(String sheet, int due, int selectors) {
@@ -113,6 +126,8 @@ public final class StyleTest {
         rule("a b c d{color:6}b{color:7}", 7, 1);
         rule("b{color:7}i{", 7, 1);
         House h = new House();
+        h.page("<p>b{color:7}</p><b></b>");
+        House.due("a TEXT elsewhere is no SHEET TEXT", h.it.count(16), 0);
         h.page("<style>b{color:</style><style>7}b{size:3}</style><b></b>");
         House.due("each TEXT by itself", h.it.style(5, 1), 63);
         House.due("7}b is passed over", h.it.style(5, 8), 3);

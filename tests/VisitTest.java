@@ -97,7 +97,11 @@ public final class VisitTest {
             House.due("HISTORY", h.it.count(7), Math.min(20, i + 1));
         }
         House.due("at its end", h.it.count(8), 19);
-        House.due("to its begin", h.it.history(-19), 0);
+        h.it.history(-1);
+        House.due("the one before", h.address(), "//home/24");
+        h.it.history(-1);
+        House.due("the one before that", h.address(), "//home/23");
+        House.due("to its begin", h.it.history(-17), 0);
         House.due("the first ones went", h.address(), "//home/6");
         h.visit("#m");
         House.due("and what is ahead", h.it.count(7), 2);

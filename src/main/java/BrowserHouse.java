@@ -975,6 +975,7 @@ public final class BrowserHouse {
         int takeServer(byte[] d, int size) {
             Answer made = new Answer();
             int at = fieldEnd(d, 0, size);
+            // with // nothing of a base counts, so any will do
             if (!Bytes.stands("//", d, 0, at) || !made.at.read(d, 0, at, here) || made.at.hasMark()) {
                 return WRONG;
             }
@@ -1098,7 +1099,7 @@ public final class BrowserHouse {
             return size;
         }
 
-        /** How many rows there are behind it. */
+        /** How many rows there are then; a new one does not come to a full table. */
         private static int putRow(long[] rows, int size, long site, long called, long is) {
             int i = rowOf(rows, size, site, called);
             if (i == ROWS) {
@@ -1884,6 +1885,8 @@ public final class BrowserHouse {
         private final int[] declared = new int[SELECTORS * PROPERTIES];
         private final int[] ranks = new int[PROPERTIES];
         private final int[] look = new int[NODES * PROPERTIES];
+        private final long idName = Bytes.pack("id");
+        private final long className = Bytes.pack("class");
         private int selectors;
         private int readFor = NONE;
 
@@ -2097,7 +2100,7 @@ public final class BrowserHouse {
                 return false;
             }
             for (int mark = part * MARKS; mark < part * MARKS + marks[part]; mark++) {
-                Bytes held = of.read(markIsId[mark] ? "id" : "class");
+                Bytes held = of.find(markIsId[mark] ? idName : className);
                 if (held == null) {
                     return false;
                 }
