@@ -1,8 +1,7 @@
 /** Promise 5: resolve, and how a REFERENCE is read. */
 public final class AddressTest {
     public static void main(String[] args) {
-        House h = new House();
-        against(h, "//home/", new String[][] {
+        against("//home/", new String[][] {
             {"", "//home/"},
             {"a", "//home/a"},
             {"/a/b", "//home/a/b"},
@@ -18,8 +17,7 @@ public final class AddressTest {
             {"/..", "//home/"},
             {".", "//home/"},
         });
-        h.visit("//shop/a/b/c?x=1#k");
-        against(h, "//shop/a/b/c?x=1#k", new String[][] {
+        against("//shop/a/b/c?x=1#k", new String[][] {
             {"", "//shop/a/b/c?x=1"},
             {"#m", "//shop/a/b/c?x=1#m"},
             {"?y=2", "//shop/a/b/c?y=2"},
@@ -76,6 +74,8 @@ public final class AddressTest {
             {"d/e/f?" + "a".repeat(41), "-1"},
             {"a/../".repeat(300) + "d", "//shop/a/b/d"},
         });
+        House h = new House();
+        h.visit("//shop/a/b/c?x=1#k");
         House.due("a new text", h.resolve("d"), 12);
         House.due("NO ADDRESS", h.resolve("//"), -1);
         House.due("THE OUT stays", h.out(12), "//shop/a/b/d");
@@ -83,9 +83,13 @@ public final class AddressTest {
         House.finish();
     }
 
-    private static void against(House h, String base, String[][] pairs) {
-        House.due("base", h.address(), base);
+    private static void against(String base, String[][] pairs) {
         for (String[] pair : pairs) {
+            House h = new House();
+            if (!base.equals("//home/")) {
+                h.visit(base);
+            }
+            House.due("base", h.address(), base);
             House.due("against " + base + ": " + pair[0], h.out(h.resolve(pair[0])), pair[1]);
         }
     }

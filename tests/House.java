@@ -1,15 +1,86 @@
+import java.io.IOException;
+import java.io.UncheckedIOException;
+import java.lang.reflect.Method;
+import java.nio.file.Files;
+import java.nio.file.Path;
+import java.util.ArrayList;
+import java.util.Arrays;
+import java.util.Comparator;
+import java.util.List;
+
 /** A BrowserHouse for tests: texts go in as Strings, THE OUT comes back as one. */
 final class House {
+    private static final Path DOCUMENT = Path.of("../shared/DOC.md");
+    private static final int PROMISES = 31;
+    private static final int CALLS = 512;
+    private static final List<House> MADE = new ArrayList<>();
     private static int asked = 0;
     private static int wrong = 0;
+    private static String document = "";
+    private static String sentence = "";
 
-    final BrowserHouse it = new BrowserHouse();
+    final Counted it = new Counted();
+
+    House() {
+        MADE.add(this);
+    }
+
+    /** One that may be called without end, by a test that relies on no answer behind the last promised call. */
+    static House endless() {
+        House made = new House();
+        MADE.remove(made);
+        return made;
+    }
+
+    /** The promise, and the document's own words, by which the answers from here on are due. */
+    static void says(int promise, String words) {
+        if (document.isEmpty()) {
+            document = plain(read(DOCUMENT));
+        }
+        sentence = "promise " + promise + ", \"" + words + "\": ";
+        if (promise < 1 || promise > PROMISES || !document.contains(plain(words))) {
+            wrong++;
+            System.out.println(sentence + "the document does not say so");
+        }
+    }
+
+    static String read(Path file) {
+        try {
+            return Files.readString(file);
+        } catch (IOException gone) {
+            throw new UncheckedIOException(gone);
+        }
+    }
+
+    static String plain(String text) {
+        return text.replaceAll("\\s+", " ").trim();
+    }
+
+    /** Runs each test of a class: a method without parameters that names a sentence and asks for answers. */
+    static void run(Class<?> tests) throws ReflectiveOperationException {
+        Method[] all = tests.getDeclaredMethods();
+        Arrays.sort(all, Comparator.comparing(Method::getName));
+        for (Method test : all) {
+            if (test.getParameterCount() > 0 || test.getReturnType() != void.class) {
+                continue;
+            }
+            int before = asked;
+            sentence = "";
+            test.setAccessible(true);
+            test.invoke(null);
+            if (sentence.isEmpty() || asked == before) {
+                wrong++;
+                System.out.println(test + " names no sentence, or asks for no answer");
+            }
+        }
+        finish();
+    }
 
     static void due(String what, long got, long want) {
         asked++;
         if (got != want) {
             wrong++;
-            System.out.println(what + " answered " + got + ", due is " + want);
+            System.out.println(sentence + what + " answered " + got + ", due is " + want);
         }
     }
 
@@ -17,11 +88,17 @@ final class House {
         asked++;
         if (!got.equals(want)) {
             wrong++;
-            System.out.println(what + " answered [" + got + "], due is [" + want + "]");
+            System.out.println(sentence + what + " answered [" + got + "], due is [" + want + "]");
         }
     }
 
     static void finish() {
+        for (House house : MADE) {
+            if (house.it.calls > CALLS) {
+                wrong++;
+                System.out.println(house.it.calls + " calls on one object: behind " + CALLS + " nothing is promised");
+            }
+        }
         System.out.println(asked + " answers, " + wrong + " of them not as due");
         if (wrong != 0 || asked == 0) {
             System.exit(1);
@@ -77,8 +154,8 @@ final class House {
             return String.valueOf(length);
         }
         StringBuilder all = new StringBuilder();
-        for (int i = 0; it.out(i) != BrowserHouse.NONE; i++) {
-            all.append((char) it.out(i));
+        for (int c = it.out(0); c != BrowserHouse.NONE; c = it.out(all.length())) {
+            all.append((char) c);
         }
         return all.length() == length ? all.toString() : "not " + length + " bytes: " + all;
     }
@@ -101,8 +178,10 @@ final class House {
 
     String found() {
         StringBuilder all = new StringBuilder();
-        for (int i = 0; it.found(i) != BrowserHouse.NONE; i++) {
-            all.append(it.found(i)).append(' ');
+        int i = 0;
+        for (int n = it.found(i); n != BrowserHouse.NONE; n = it.found(i)) {
+            all.append(n).append(' ');
+            i++;
         }
         return all.toString().trim();
     }
@@ -150,8 +229,10 @@ final class House {
     /** A row of THE PICTURE's points. */
     String row(int y) {
         StringBuilder all = new StringBuilder();
-        for (int x = 0; it.point(x, y) != BrowserHouse.NONE; x++) {
-            all.append(x == 0 ? "" : " ").append(it.point(x, y));
+        int x = 0;
+        for (int c = it.point(x, y); c != BrowserHouse.NONE; c = it.point(x, y)) {
+            all.append(x == 0 ? "" : " ").append(c);
+            x++;
         }
         return all.toString();
     }

@@ -61,7 +61,7 @@ public final class StormTest {
     }
 
     private static long storm(int calls) {
-        House h = new House();
+        House h = House.endless();
         long sum = 0;
         for (int i = 0; i < calls; i++) {
             sum = sum * 31 + call(h);
@@ -70,7 +70,7 @@ public final class StormTest {
     }
 
     private static int call(House h) {
-        BrowserHouse it = h.it;
+        Counted it = h.it;
         switch (next(40)) {
             case 0: return it.feed(number(), number(), number(), number(), number());
             case 1: return it.end(number());
