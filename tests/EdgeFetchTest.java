@@ -175,6 +175,9 @@ public final class EdgeFetchTest {
         House.due("none of this SITE", h.it.write(2), 0);
         House.due("a KEPT one is no REQUEST", asks(h, "//shop/b"), 0);
         House.due("so the last one is told", h.out(h.it.write(1)), "//far/c");
+        h.server("//shop/d to=//far/d#n\n");
+        h.visit("//shop/d#m");
+        House.due("a MARK is of no matter", h.out(h.it.write(1)), "//far/d");
         h.visit("//shop/c");
         House.due("in order as they came", h.out(h.it.write(2)), "b=one;a=two");
     }

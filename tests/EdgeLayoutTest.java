@@ -144,6 +144,10 @@ public final class EdgeLayoutTest {
         h = shown(40, ".k{width:8;padding:5}.m{width:50%}", "<div class=k><div class=m></div></div>");
         House.due("at least its padding", h.box(3), "0 0 10 10");
         House.due("the half of 0", h.box(4), "5 5 0 0");
+        h = shown(40, ".k{width:8;padding:5}.m{width:100%}", "<div class=k><div class=m></div><div></div><img class=m></div>");
+        House.due("all of 0", h.box(4), "5 5 0 0");
+        House.due("without margins", h.box(5), "5 5 0 0");
+        House.due("of an img", h.box(6), "5 5 0 8");
     }
 
     static void rootsBox() {
@@ -319,6 +323,8 @@ public final class EdgeLayoutTest {
         h = shown(40, "p{margin:4}", "<div><p>a</p></div><div><p>b</p></div>");
         House.due("two that joined meet", h.it.box(6, 1), 15);
         House.due("in all", h.it.box(0, 3), 26);
+        h = shown(40, "p{margin:4}", "<div><p>a</p>t<p>b</p></div>");
+        House.due("the first thing's TOP alone", h.it.box(4, 1) + " " + h.it.word(1, 4) + " " + h.it.box(7, 1), "4 15 26");
     }
 
     static void linesOfNothingPart() {

@@ -100,6 +100,7 @@ public final class EdgeLinesTest {
         places(96, "b{size:3}", "a<b>  \n </b>c", "0,0 4,0");
         places(96, "b{size:3}", "a<b>x \n </b>c", "0,14 4,0 19,14");
         places(96, "b{size:1}", "a<b>b</b>c", "0,0 4,0 8,0");
+        places(96, "b{size:1}", "a b<b>c</b>d e", "0,0 7,0 11,0 15,0 22,0");
         places(20, "b{size:1}", "aaa<b>bbb</b>", "0,0 0,7");
         House.due("a PIECE by its own size", shown(96, "img{size:3}", "a <img>").box(4), "13 0 8 8");
         House.due("a WORD behind a PIECE", shown(96, "img{size:3}", "<img> a").places(), "11,1");
@@ -142,6 +143,8 @@ public final class EdgeLinesTest {
         places(40, "br{size:3}", "<br>b", "0,21");
         places(40, "br{size:3}", "a<br>b", "0,0 0,7");
         places(40, "b{size:2}", "<b><br></b>b", "0,14");
+        places(40, "i{float:left;width:5;height:7}", "<i></i><br>b", "0,7");
+        places(40, "i{float:left;width:5;height:8}", "<i></i><br>b", "5,7");
         House.due("at the end", shown(40, "b{size:1}", "a<br>").it.box(0, 3), 7);
         House.due("twice at the end", shown(40, "b{size:1}", "a<br><br>").it.box(0, 3), 14);
         House.due("of display none", shown(40, "br{display:none}", "a<br>b").places(), "0,0 4,0");
@@ -168,6 +171,7 @@ public final class EdgeLinesTest {
         places(20, "div{align:center}", "aaaaa", "0,0");
         places(20, "div{align:right}", "aaa aaa", "8,0 8,7");
         places(20, "div{align:right}b{align:left}", "<b>aa</b>", "12,0");
+        House.due("PIECES and WORDS", shown(40, "div{align:right}", "a<img> b").box(4) + " " + shown(40, "div{align:right}", "a<img> b").places(), "25 0 8 8 21,1 36,1");
         places(40, "div{align:right}i{float:right;width:10;height:7;align:left}", "<i>x</i>aa<br>bb", "30,0 22,0 32,7");
         House.says(23, "what is left is 0 at least for align.");
         places(20, "div{align:center}", "aaaaaa", "0,0");

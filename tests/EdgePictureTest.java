@@ -197,6 +197,25 @@ public final class EdgePictureTest {
         House.due("the blank", rows(h, 4, 0, 3, 7), ".../.../.../.../.../.../...");
     }
 
+    static void eachHasItsOwn() {
+        House.says(24, TEXT_IN_PIECES);
+        House h = shown(40, "button{border:0;padding:0}input{border:1;padding:1;width:12}p{margin:3}", "<p>i<button>ab</button><button> c</button><br>i<input value=d></p>");
+        House.due("the first button", shown(h, 5, 3, 'a', 1) + shown(h, 9, 3, 'b', 1), glyph('a', 1) + glyph('b', 1));
+        House.due("the second", shown(h, 13, 3, 'c', 1), glyph('c', 1));
+        House.due("an input below, beside a WORD", h.box(11) + " " + shown(h, 7, 12, 'd', 1), "5 10 12 11 " + glyph('d', 1));
+    }
+
+    static void bytesThatWent() {
+        House.says(24, "then the input's VALUE (below),");
+        House h = shown(40, "input{border:0}", "<input value=am>");
+        h.it.press(1, 1);
+        h.it.key(8);
+        House.due("a stays", shown(h, 0, 0, 'a', 1), glyph('a', 1));
+        House.due("m went", rows(h, 4, 0, 5, 7), "...../...../...../...../...../...../.....");
+        h.it.key('w');
+        House.due("w came", shown(h, 4, 0, 'w', 1), glyph('w', 1));
+    }
+
     static void checkedOnes() {
         House.says(24, "a checked one (below) has all of its INNER in color, and no VALUE;");
         House h = shown(20, "input{width:8;border:1;padding:1;color:2;background:1}", "<input type=check checked value=m>");

@@ -209,7 +209,7 @@ public final class EdgeStyleTest {
             {"b{color:1!}#x{color:2}", 1}, {"b{color:1!}#x{color:2!}", 2}, {"#x{color:1!}b{color:2!}", 1}, {"b{color:1!}b{color:2!}", 2},
             {"b{color:1!}b{color:2}", 1}, {"b{color:1;color:2}", 2}, {"b{color:1!;color:2}", 1}, {"b{color:1!;color:2!}", 2},
             {"b{color:1!;color:2!;color:3}", 2}, {"b{color:1;color:2!;color:3}", 2}, {"#x,b{color:1}.k{color:2}", 1}, {"b,#x{color:1}.k{color:2}", 1},
-            {"b{color:1!;size:2}#x{color:2;size:3}", 1}, {"b{color:0!}#x{color:2}", 0}, {"b,i{color:1}b{color:2}", 2},
+            {"b{color:1!;size:2}#x{color:2;size:3}", 1}, {"b{color:0!}#x{color:2}", 0}, {"b{color:0!;color:2}", 0}, {"b,i{color:1}b{color:2}", 2},
         };
         for (Object[] row : rows) {
             House.due("color by " + row[0], styled((String) row[0], page).it.style(3, 1), (Integer) row[1]);
@@ -223,6 +223,7 @@ public final class EdgeStyleTest {
         House.says(20, "1 color, 2 background: a NUMBER 0 .. 63;");
         is("color:0", 1, 0);
         is("color:63", 1, 63);
+        is("color:1;color:63", 1, 63);
         is("color:1;color:64", 1, 1);
         is("color:1;color:9999", 1, 1);
         is("color:1;color:-1", 1, 1);
@@ -271,6 +272,10 @@ public final class EdgeStyleTest {
         is("align:right;align:middle", 9, 2);
         is("align:right;align:none", 9, 2);
         is("align:right;align:1", 9, 2);
+        is("float:right;float:none", 10, 0);
+        is("align:right;align:left", 9, 0);
+        is("display:flex;display:block", 0, 0);
+        is("display:flex;display:inline", 0, 1);
         is("float:right;float:center", 10, 2);
         is("float:right;float:lef", 10, 2);
         is("float:right;float:lefts", 10, 2);

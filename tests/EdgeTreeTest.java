@@ -264,9 +264,15 @@ public final class EdgeTreeTest {
         House.due("8001", h.it.serialise(0), 8000);
         House.due("the last byte is cut off", h.it.out(7999), 'v');
         House.due("no byte behind it", h.it.out(8000), -1);
-        h.page("<b>" + "\"".repeat(400) + "</b><b>" + "\"".repeat(400) + "</b><b>" + "\"".repeat(400) + "</b><b>" + "\"".repeat(400) + "</b>");
+        h = new House();
+        h.page(("<b>" + "\"".repeat(400) + "</b>").repeat(4));
         House.due("far beyond", h.it.serialise(0), 8000);
-        House.due("cut within an ENTITY", h.it.out(7999) == -1 ? 0 : 1, 1);
+        House.due("cut within an ENTITY: 771 of 2400 bytes", h.it.out(7999), 'u');
+        h = new House();
+        h.page(("<b>" + "\"".repeat(400) + "</b>").repeat(3) + "<b>" + "\"".repeat(61) + "</b><style>" + "s".repeat(400) + "</style>");
+        House.due("the TEXT of a style beyond", h.it.serialise(0), 8000);
+        House.due("its last byte there", h.it.out(7999), 's');
+        House.due("none behind that", h.it.out(8000), -1);
     }
 
     static void serialisedOfNone() {
