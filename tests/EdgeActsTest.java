@@ -7,15 +7,9 @@ public final class EdgeActsTest {
         House.run(EdgeActsTest.class);
     }
 
-    private static House paged(String page) {
-        House h = new House();
-        h.page(page);
-        return h;
-    }
-
     /** A page whose first ELEMENT is an input that has the FOCUS. */
     private static House focused(String page) {
-        House h = paged(page);
+        House h = House.paged(page);
         h.it.press(1, 1);
         return h;
     }
@@ -41,10 +35,10 @@ public final class EdgeActsTest {
 
     static void pressOnWhatGoes() {
         House.says(26, "An EVENT press comes to what is ON TOP of a point: its NODE;");
-        House h = paged("<p id=x onpress='del x'>a</p>");
+        House h = House.paged("<p id=x onpress='del x'>a</p>");
         House.due("its NODE, though it went", h.it.press(3, 3), 2);
         House.due("it went", h.it.count(0), 1);
-        h = paged("<p onpress='go /y'>a</p>");
+        h = House.paged("<p onpress='go /y'>a</p>");
         House.due("its NODE, though the page went", h.it.press(3, 3), 2);
     }
 
@@ -53,7 +47,7 @@ public final class EdgeActsTest {
     static void keyThatIsNone() {
         House.says(27, "NONE, and nothing happens, without, or if c is not 8, 10, 32 .. 126.");
         House.due("without FOCUS", new House().it.key('a'), -1);
-        House.due("without FOCUS, though there is an input", paged("<input>").it.key('a'), -1);
+        House.due("without FOCUS, though there is an input", House.paged("<input>").it.key('a'), -1);
         House h = focused("<input value=ab onkey='put a v'>");
         for (int c : new int[] {0, 7, 9, 11, 13, 31, 127, 128, 255, -1, 256 + 'a', Integer.MAX_VALUE, Integer.MIN_VALUE}) {
             House.due("key " + c, h.it.key(c), -1);
@@ -69,7 +63,7 @@ public final class EdgeActsTest {
 
     static void keyComesToTheInput() {
         House.says(27, "An EVENT key comes to the input that has the FOCUS, with byte c: its NODE;");
-        House h = paged("<div onkey='put a v'><input><input onkey='put b v'></div>");
+        House h = House.paged("<div onkey='put a v'><input><input onkey='put b v'></div>");
         h.it.press(25, 1);
         House.due("its NODE", h.it.key('a'), 3);
         House.due("its VALUE", h.value(2) + "|" + h.value(3), "|a");
@@ -114,7 +108,7 @@ public final class EdgeActsTest {
         House.due("one that goes meanwhile", h.it.key('a'), 1);
         House.due("another one has its number again", h.it.node(1, 0), 13);
         House.due("it gets no byte", h.value(1), "");
-        h = paged("<p id=x onpress='put b v'><b onpress='del x;add self p'>a</b></p>");
+        h = House.paged("<p id=x onpress='put b v'><b onpress='del x;add self p'>a</b></p>");
         h.it.press(3, 3);
         House.due("a way that went: del is run, add is WRONG, no more", h.it.count(12) + " " + h.it.count(11), "1 1");
     }
@@ -123,7 +117,7 @@ public final class EdgeActsTest {
 
     static void values() {
         House.says(29, "An input has a VALUE (at first its ATTRIBUTE value, else nothing; at most 24 bytes)");
-        House h = paged("<input value=" + "v".repeat(24) + "><input value=" + "w".repeat(25) + "><input><input value><input value='a&lt;\n'>");
+        House h = House.paged("<input value=" + "v".repeat(24) + "><input value=" + "w".repeat(25) + "><input><input value><input value='a&lt;\n'>");
         House.due("24", h.value(1), "v".repeat(24));
         House.due("25", h.value(2), "w".repeat(24));
         House.due("no ATTRIBUTE", h.value(3), "");
@@ -135,7 +129,7 @@ public final class EdgeActsTest {
 
     static void valueIsWritten() {
         House.says(29, "An input's VALUE, written to THE OUT: how many bytes;");
-        House h = paged("<input value=ab><input>");
+        House h = House.paged("<input value=ab><input>");
         House.due("two", h.it.value(1), 2);
         House.due("written", h.out(2), "ab");
         House.due("none", h.it.value(2), 0);
@@ -148,7 +142,7 @@ public final class EdgeActsTest {
 
     static void valueOfNone() {
         House.says(29, "NONE if it is no input.");
-        House h = paged("<input id=x><b value=v>t</b>");
+        House h = House.paged("<input id=x><b value=v>t</b>");
         for (int n : new int[] {0, 2, 3, 4, 119, 120, -1, Integer.MAX_VALUE, Integer.MIN_VALUE}) {
             House.due("value(" + n + ")", h.it.value(n), -1);
         }
@@ -158,7 +152,7 @@ public final class EdgeActsTest {
 
     static void checkedOnes() {
         House.says(30, "and is CHECKED or not (ATTRIBUTE checked), if its ATTRIBUTE type is check.");
-        House h = paged("<input type=check checked><input type=check><input checked><input type=checks checked><input type=Check checked>"
+        House h = House.paged("<input type=check checked><input type=check><input checked><input type=checks checked><input type=Check checked>"
                 + "<input checked=no type=check><input type='check ' checked><input CHECKED TYPE=check>");
         int[] due = {1, 0, 0, 0, 0, 1, 0, 1};
         for (int i = 0; i < due.length; i++) {
@@ -168,7 +162,7 @@ public final class EdgeActsTest {
 
     static void checkedOfNone() {
         House.says(30, "Whether an input is CHECKED: 1 or 0; NONE if it is no input.");
-        House h = paged("<input id=x type=check checked><b type=check checked>t</b>");
+        House h = House.paged("<input id=x type=check checked><b type=check checked>t</b>");
         for (int n : new int[] {0, 2, 3, 4, 119, 120, -1, Integer.MAX_VALUE, Integer.MIN_VALUE}) {
             House.due("checked(" + n + ")", h.it.checked(n), -1);
         }
@@ -180,13 +174,13 @@ public final class EdgeActsTest {
 
     static void listeners() {
         House.says(26, "An ATTRIBUTE on and a SCRIPT make a LISTENER: of NAMES onpress, onkey, onload.");
-        House h = paged("<p onclick='put a v' on='put b v' onpresss='put c v' ONPRESS='put d v'>a</p>");
+        House h = House.paged("<p onclick='put a v' on='put b v' onpresss='put c v' ONPRESS='put d v'>a</p>");
         h.it.press(3, 3);
         House.due("onpress alone", h.it.count(15), 1);
-        h = paged("<p onpress>a</p>");
+        h = House.paged("<p onpress>a</p>");
         House.due("an empty one", h.it.press(3, 3), 2);
         House.due("runs nothing", h.it.count(12), 0);
-        h = paged("<p onpress='" + "put a v;".repeat(8) + "'>a</p>");
+        h = House.paged("<p onpress='" + "put a v;".repeat(8) + "'>a</p>");
         h.it.press(3, 3);
         House.due("its first 60 bytes: the eighth STEP is cut to put", h.it.count(12) + " " + h.it.count(11), "7 1");
     }
@@ -197,33 +191,33 @@ public final class EdgeActsTest {
         for (int i = 0; i < 19; i++) {
             deep += "<b onpress='put a v'>";
         }
-        House h = paged(deep + "a");
+        House h = House.paged(deep + "a");
         House.due("20 deep", h.it.press(1, 1), 20);
         House.due("each LISTENER", h.it.count(12), 19);
-        h = paged("<div onpress='put a v'><p onpress='put b v;stop;put c v'><b onpress='put d v'>a</b></p></div>");
+        h = House.paged("<div onpress='put a v'><p onpress='put b v;stop;put c v'><b onpress='put d v'>a</b></p></div>");
         h.it.press(3, 3);
         House.due("till one stops, whose script goes on", h.it.count(12), 4);
         House.due("not the one above it", h.it.count(15), 3);
-        h = paged("<div onpress='put a v'><p id=x onpress='put b v'><b onpress='del x'>a</b></p></div>");
+        h = House.paged("<div onpress='put a v'><p id=x onpress='put b v'><b onpress='del x'>a</b></p></div>");
         h.it.press(3, 3);
         House.due("what went is left out", h.it.count(12), 2);
-        h = paged("<p id=x onpress='put a v'><b onpress='text x t'>a</b></p>");
+        h = House.paged("<p id=x onpress='put a v'><b onpress='text x t'>a</b></p>");
         h.it.press(3, 3);
         House.due("what lies above goes on", h.it.count(12), 2);
     }
 
     static void load() {
         House.says(8, "(load: each NODE that has such a LISTENER then, in the tree's order, gets it alone.)");
-        House h = paged("<p onload='put a v'><b onload='put b v'></b></p><i onload='put c v'></i>");
+        House h = House.paged("<p onload='put a v'><b onload='put b v'></b></p><i onload='put c v'></i>");
         House.due("each one once", h.it.count(12), 3);
-        h = paged("<p id=x><b onload='text x a'></b></p><i id=y onload='text y b'></i>");
+        h = House.paged("<p id=x><b onload='text x a'></b></p><i id=y onload='text y b'></i>");
         House.due("one that goes by its own script", h.it.count(12), 2);
-        h = paged("<b onload='del y'></b><i id=y onload='put a v'></i>");
+        h = House.paged("<b onload='del y'></b><i id=y onload='put a v'></i>");
         House.due("one that went is left out", h.it.count(12), 1);
-        h = paged("<a href=/z onload='put a v'><input type=check onload='put b v'></a>");
+        h = House.paged("<a href=/z onload='put a v'><input type=check onload='put b v'></a>");
         House.due("no DEFAULT", h.address() + " " + h.it.checked(2), "//home/ 0");
         House.says(8, "stop in a LISTENER of load is for that one alone.");
-        h = paged("<p onload='stop;put a v'></p><i onload='put b v'></i>");
+        h = House.paged("<p onload='stop;put a v'></p><i onload='put b v'></i>");
         House.due("all are run", h.it.count(12), 3);
     }
 
@@ -231,49 +225,49 @@ public final class EdgeActsTest {
 
     static void defaults() {
         House.says(26, DEFAULT);
-        House h = paged("<a href=/y>a</a>");
+        House h = House.paged("<a href=/y>a</a>");
         h.it.press(1, 1);
         House.due("an a with href", h.address(), "//home/y");
-        h = paged("<a href=/y><a2>a</a2></a>");
+        h = House.paged("<a href=/y><a2>a</a2></a>");
         h.it.press(1, 1);
         House.due("what lies in it", h.address(), "//home/y");
-        h = paged("<a>a</a>");
+        h = House.paged("<a>a</a>");
         h.it.press(1, 1);
         House.due("an a without", h.it.count(7), 1);
-        h = paged("<a href>a</a>");
+        h = House.paged("<a href>a</a>");
         h.it.press(1, 1);
         House.due("an empty href is this page", h.it.count(7), 2);
-        h = paged("<a href='A'>a</a>");
+        h = House.paged("<a href='A'>a</a>");
         h.it.press(1, 1);
         House.due("NO ADDRESS", h.it.count(7), 1);
-        h = paged("<a href=/y><input type=check></a>");
+        h = House.paged("<a href=/y><input type=check></a>");
         h.it.press(1, 1);
         House.due("the first one on that way", h.address() + " " + h.it.checked(2), "//home/ 1");
         h.it.press(1, 1);
         House.due("the other way round again", h.it.checked(2), 0);
-        h = paged("<a href=/y><input></a>");
+        h = House.paged("<a href=/y><input></a>");
         h.it.press(1, 1);
         House.due("another input", h.address() + " " + h.it.count(13), "//home/ 2");
-        h = paged("<form action=/s><button>a</button></form>");
+        h = House.paged("<form action=/s><button>a</button></form>");
         h.it.press(1, 1);
         House.due("a button in a form", h.address(), "//home/s?");
-        h = paged("<a href=/y><button>a</button></a>");
+        h = House.paged("<a href=/y><button>a</button></a>");
         h.it.press(1, 1);
         House.due("a button in none, so the a", h.address(), "//home/y");
-        h = paged("<a href='A'><b>a</b></a><p>");
+        h = House.paged("<a href='A'><b>a</b></a><p>");
         h.it.press(1, 1);
         House.due("a NO ADDRESS is the DEFAULT all the same", h.it.count(7), 1);
     }
 
     static void defaultsOfWhatIsThere() {
         House.says(26, "by the first one on that way, that is there still,");
-        House h = paged("<a href=/y><b id=x onpress='del x'>a</b></a>");
+        House h = House.paged("<a href=/y><b id=x onpress='del x'>a</b></a>");
         h.it.press(1, 1);
         House.due("the a is there", h.address(), "//home/y");
-        h = paged("<a id=x href=/y><b onpress='del x'>a</b></a>");
+        h = House.paged("<a id=x href=/y><b onpress='del x'>a</b></a>");
         h.it.press(1, 1);
         House.due("it went", h.address(), "//home/");
-        h = paged("<form id=x action=/s><button onpress='del x'>a</button></form>");
+        h = House.paged("<form id=x action=/s><button onpress='del x'>a</button></form>");
         h.it.press(1, 1);
         House.due("a form that went with its button", h.address(), "//home/");
     }
@@ -315,7 +309,7 @@ public final class EdgeActsTest {
     // ---- SENT
 
     private static String sent(String form) {
-        House h = paged(form + "<br><button>k</button></form>");
+        House h = House.paged(form + "<br><button>k</button></form>");
         h.select("button");
         int n = h.it.found(0);
         h.it.press(h.it.box(n, 0) + 1, h.it.box(n, 1) + 1);
@@ -331,7 +325,7 @@ public final class EdgeActsTest {
         House.due("with a MARK", sent("<form action='/s?x=1#m'>"), "//home/s?#m");
         House.due("NO ADDRESS", sent("<form action='A'>"), "//home/");
         House.due("the innermost form", sent("<form action=/o><form action=/i>"), "//home/i?");
-        House h = paged("<form><button>k</button></form>");
+        House h = House.paged("<form><button>k</button></form>");
         h.visit("/a?b#m");
         h.page("<form><input name=q value=v><br><button>k</button></form>");
         h.it.press(1, h.it.box(4, 1) + 1);

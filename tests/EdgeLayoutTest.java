@@ -6,14 +6,6 @@ public final class EdgeLayoutTest {
         House.run(EdgeLayoutTest.class);
     }
 
-    /** The style is NODE 1, its TEXT 2: what is shown begins at 3. */
-    private static House shown(int width, String sheet, String page) {
-        House h = new House();
-        h.it.screen(width);
-        h.page("<style>" + sheet + "</style>" + page);
-        return h;
-    }
-
     // ---- promise 21
 
     static void screenEdges() {
@@ -54,7 +46,7 @@ public final class EdgeLayoutTest {
 
     static void boxOfNone() {
         House.says(22, "-1000 if it has none (TEXTS, br, inline ones).");
-        House h = shown(40, ".n{display:none}", "t<br><b><p>u</p></b><p class=n><img></p><button><img></button><i></i>");
+        House h = House.shown(40, ".n{display:none}", "t<br><b><p>u</p></b><p class=n><img></p><button><img></button><i></i>");
         String[] what = {"", "style", "its TEXT", "a TEXT", "br", "b", "p within b", "its TEXT", "p of display none", "img within", "", "img within a button", "i"};
         for (int n = 1; n < what.length; n++) {
             for (int side = 0; side < 4 && n != 10; side++) {
@@ -72,7 +64,7 @@ public final class EdgeLayoutTest {
 
     static void boxOfWhatWent() {
         House.says(22, "-1000 if it has none (TEXTS, br, inline ones).");
-        House h = shown(40, "p{margin:0}", "<p id=x>t</p><p>u</p>");
+        House h = House.shown(40, "p{margin:0}", "<p id=x>t</p><p>u</p>");
         House.due("the second", h.box(5), "0 7 40 7");
         h.script("del x");
         House.due("one that went", h.it.box(3, 0), -1000);
@@ -110,7 +102,7 @@ public final class EdgeLayoutTest {
         for (int what : new int[] {-1, 7, Integer.MAX_VALUE, Integer.MIN_VALUE}) {
             House.due("what " + what, h.it.word(0, what), -1000);
         }
-        House.due("none that is not laid", shown(40, ".n{display:none}", "<p class=n>a</p><button>b</button>").it.word(0, 0), -1000);
+        House.due("none that is not laid", House.shown(40, ".n{display:none}", "<p class=n>a</p><button>b</button>").it.word(0, 0), -1000);
     }
 
     static void glyphs() {
@@ -119,8 +111,8 @@ public final class EdgeLayoutTest {
         for (char c = 33; c <= 126; c++) {
             all.append(c == '<' ? "&lt;" : c == '&' ? "&amp;" : "" + c).append(' ');
         }
-        House h = shown(96, "b{size:3}", "<i>" + all + "</i>");
-        House big = shown(96, "i{size:3}", "<i>" + all + "</i>");
+        House h = House.shown(96, "b{size:3}", "<i>" + all + "</i>");
+        House big = House.shown(96, "i{size:3}", "<i>" + all + "</i>");
         for (char c = 33; c <= 126; c++) {
             int wide = "ilj.,':;!|".indexOf(c) >= 0 ? 2 : "mwMW@".indexOf(c) >= 0 ? 5 : 4;
             House.due("byte " + c, h.it.word(c - 33, 5), wide);
@@ -134,17 +126,17 @@ public final class EdgeLayoutTest {
 
     static void innerAtLeastZeroWide() {
         House.says(22, "A BOX: x, y, width, height, with border and padding, without margin; its INNER rectangle is without these (0 wide at least).");
-        House h = shown(40, "p{margin:3;border:1;padding:2}", "<p>a</p>");
+        House h = House.shown(40, "p{margin:3;border:1;padding:2}", "<p>a</p>");
         House.due("without margin", h.box(3), "3 3 34 13");
         House.due("its INNER", h.places(), "6,6");
-        h = shown(20, "div{margin:9;border:3;padding:20}", "<p>a</p>");
+        h = House.shown(20, "div{margin:9;border:3;padding:20}", "<p>a</p>");
         House.due("THE ROOT, narrower than its border and padding", h.box(0), "0 0 20 57");
         House.due("a p in an INNER of 0", h.box(3), "25 25 0 7");
         House.due("its WORD", h.places(), "25,25");
-        h = shown(40, ".k{width:8;padding:5}.m{width:50%}", "<div class=k><div class=m></div></div>");
+        h = House.shown(40, ".k{width:8;padding:5}.m{width:50%}", "<div class=k><div class=m></div></div>");
         House.due("at least its padding", h.box(3), "0 0 10 10");
         House.due("the half of 0", h.box(4), "5 5 0 0");
-        h = shown(40, ".k{width:8;padding:5}.m{width:100%}", "<div class=k><div class=m></div><div></div><img class=m></div>");
+        h = House.shown(40, ".k{width:8;padding:5}.m{width:100%}", "<div class=k><div class=m></div><div></div><img class=m></div>");
         House.due("all of 0", h.box(4), "5 5 0 0");
         House.due("without margins", h.box(5), "5 5 0 0");
         House.due("of an img", h.box(6), "5 5 0 8");
@@ -152,10 +144,10 @@ public final class EdgeLayoutTest {
 
     static void rootsBox() {
         House.says(22, "THE ROOT's BOX begins at 0, 0, as wide as the SCREEN.");
-        House h = shown(30, "div{width:5;margin:7}", "a");
+        House h = House.shown(30, "div{width:5;margin:7}", "a");
         House.due("whatever is told", h.box(0), "0 0 30 7");
-        House.due("96%", shown(30, "div{width:96%}", "a").box(0), "0 0 30 7");
-        House.due("a height told is that", shown(30, "div{height:50}", "a").box(0), "0 0 30 50");
+        House.due("96%", House.shown(30, "div{width:96%}", "a").box(0), "0 0 30 7");
+        House.due("a height told is that", House.shown(30, "div{height:50}", "a").box(0), "0 0 30 50");
         House.due("nothing is 0 high", new House().box(0), "0 0 48 0");
     }
 
@@ -168,9 +160,9 @@ public final class EdgeLayoutTest {
             {40, "width:100%;margin:5", 40}, {40, "width:0;padding:20;border:3", 46},
         };
         for (Object[] row : rows) {
-            House.due(row[1] + " on " + row[0], shown((Integer) row[0], "p{" + row[1] + "}", "<p></p>").it.box(3, 2), (Integer) row[2]);
+            House.due(row[1] + " on " + row[0], House.shown((Integer) row[0], "p{" + row[1] + "}", "<p></p>").it.box(3, 2), (Integer) row[2]);
         }
-        House h = shown(40, ".k{padding:3;border:1}.m{width:50%}.n{width:33%}", "<div class=k><div class=m></div><div class=n></div><div></div></div>");
+        House h = House.shown(40, ".k{padding:3;border:1}.m{width:50%}.n{width:33%}", "<div class=k><div class=m></div><div class=n></div><div></div></div>");
         House.due("50% of 32", h.it.box(4, 2), 16);
         House.due("33% of 32", h.it.box(5, 2), 10);
         House.due("all of 32", h.it.box(6, 2), 32);
@@ -178,15 +170,15 @@ public final class EdgeLayoutTest {
 
     static void whatIsTold() {
         House.says(22, "(A width told is that of the BOX; so is a height.) Its x: that INNER x and its margin.");
-        House h = shown(40, ".k{padding:3;border:1}p{width:20;height:20;padding:2;border:1;margin:5}", "<div class=k><p>a</p></div>");
+        House h = House.shown(40, ".k{padding:3;border:1}p{width:20;height:20;padding:2;border:1;margin:5}", "<div class=k><p>a</p></div>");
         House.due("the BOX", h.box(4), "9 9 20 20");
         House.due("its INNER", h.places(), "12,12");
-        House.due("margins of 20", shown(20, "p{margin:20}", "<p></p>").box(3), "20 20 0 0");
+        House.due("margins of 20", House.shown(20, "p{margin:20}", "<p></p>").box(3), "20 20 0 0");
     }
 
     static void whatLiesInABlock() {
         House.says(22, "What would be a FLOAT or BLOCK within an inline ELEMENT is as inline there; hr there is nothing.");
-        House h = shown(40, "i{float:left}u{display:flex}", "<span>a<p>b</p><i>c</i><u>d</u><hr>e</span>");
+        House h = House.shown(40, "i{float:left}u{display:flex}", "<span>a<p>b</p><i>c</i><u>d</u><hr>e</span>");
         House.due("one LINE", h.places(), "0,0 4,0 8,0 12,0 16,0");
         for (int n : new int[] {3, 5, 7, 9, 11}) {
             House.due("no BOX of " + n, h.it.box(n, 0), -1000);
@@ -197,7 +189,7 @@ public final class EdgeLayoutTest {
 
     static void floatsBlocksAndOthers() {
         House.says(22, "What lies in a BLOCK, without what has display none, is FLOATS (ELEMENTS with float), BLOCKS (ELEMENTS with display block or flex), and others: INLINE.");
-        House h = shown(40, ".l{float:left}.b{display:block}.f{display:flex}.n{display:none}.i{display:inline}",
+        House h = House.shown(40, ".l{float:left}.b{display:block}.f{display:flex}.n{display:none}.i{display:inline}",
                 "<b class=l>a</b><b class=b>b</b><b class=f><i>c</i></b><b class=n>d</b><p class=i>e</p>f");
         House.due("a FLOAT", h.box(3), "0 0 4 7");
         House.due("a block", h.box(5), "0 7 40 7");
@@ -209,14 +201,14 @@ public final class EdgeLayoutTest {
 
     static void wholePoints() {
         House.says(22, "All is in whole points;");
-        House h = shown(31, "div{align:center}p{width:33%;margin:1}", "<p></p>a");
+        House h = House.shown(31, "div{align:center}p{width:33%;margin:1}", "<p></p>a");
         House.due("33% of 31", h.box(3), "1 1 10 0");
         House.due("the half of 27", h.it.word(0, 3), 13);
     }
 
     static void boxWhat() {
         House.says(22, "Of an ELEMENT's BOX, or PIECE, what 0: x, 1: y, 2: width, 3: height;");
-        House h = shown(40, "p{margin:2;padding:1;width:20;height:30}img{width:5;height:6}", "<p><img></p>");
+        House h = House.shown(40, "p{margin:2;padding:1;width:20;height:30}img{width:5;height:6}", "<p><img></p>");
         int[][] due = {{2, 2, 20, 30}, {3, 3, 5, 6}};
         for (int n = 0; n < 2; n++) {
             for (int what = 0; what < 4; what++) {
@@ -227,7 +219,7 @@ public final class EdgeLayoutTest {
 
     static void wordWhat() {
         House.says(23, "Of the i-th WORD of all, in the tree's order, what 0: its TEXT, 1: at which byte of that it begins, 2: how many bytes, 3: x, 4: y, 5: width, 6: height;");
-        House h = shown(40, "i{float:right;size:2}p{margin:3}", "<p>a  bm<i>c</i></p>d");
+        House h = House.shown(40, "i{float:right;size:2}p{margin:3}", "<p>a  bm<i>c</i></p>d");
         House.due("the first", h.word(0), "4 0 1 3 3 4 7");
         House.due("the second", h.word(1), "4 3 2 10 3 9 7");
         House.due("that of a FLOAT stands in the tree's order", h.word(2), "6 0 1 29 10 8 14");
@@ -236,7 +228,7 @@ public final class EdgeLayoutTest {
 
     static void floatsAloneMakeLines() {
         House.says(22, "A run of INLINE things and FLOATS makes LINES (of FLOATS alone too).");
-        House h = shown(40, "p{margin:5}i{float:left;height:2;width:2}", "<p>a</p><i></i><p>b</p>");
+        House h = House.shown(40, "p{margin:5}i{float:left;height:2;width:2}", "<p>a</p><i></i><p>b</p>");
         House.due("LINES behind BOTTOM", h.box(5), "0 17 2 2");
         House.due("no margins meet over them", h.it.box(6, 1), 22);
         House.due("THE ROOT", h.it.box(0, 3), 34);
@@ -245,7 +237,7 @@ public final class EdgeLayoutTest {
     // ---- margins
 
     private static void joins(String sheet, String due) {
-        House h = shown(40, sheet, "<div class=k><p>a</p></div>");
+        House h = House.shown(40, sheet, "<div class=k><p>a</p></div>");
         House.due(sheet + ": y of the div, of the p, height of the div, of THE ROOT",
                 h.it.box(3, 1) + " " + h.it.box(4, 1) + " " + h.it.box(3, 3) + " " + h.it.box(0, 3), due);
     }
@@ -271,37 +263,37 @@ public final class EdgeLayoutTest {
         House.says(22, JOIN);
         joins(".k{display:flex}p{margin:4}", "0 4 15 15");
         joins("p{margin:4;display:flex}", "4 4 0 8");
-        House h = shown(40, ".f{display:flex}p{margin:4}", "<div class=f><div><p>a</p></div></div>");
+        House h = House.shown(40, ".f{display:flex}p{margin:4}", "<div class=f><div><p>a</p></div></div>");
         House.due("one that lies in a FLEX", h.box(4), "0 0 4 15");
         House.due("what is in it", h.box(5), "4 4 0 7");
-        h = shown(40, ".f{display:flex}p{margin:4}", "<div class=f><div><div><p>a</p></div></div></div>");
+        h = House.shown(40, ".f{display:flex}p{margin:4}", "<div class=f><div><div><p>a</p></div></div></div>");
         House.due("one that lies in that does", h.it.box(5, 1), 4);
         House.due("with what is in it", h.it.box(6, 1), 4);
     }
 
     static void notTheRootNoFloat() {
         House.says(22, "Of MARGINS JOIN: the BLOCK itself is neither THE ROOT nor a FLOAT.");
-        House h = shown(40, "p{margin:4}", "<p>a</p>");
+        House h = House.shown(40, "p{margin:4}", "<p>a</p>");
         House.due("in THE ROOT", h.box(3), "4 4 32 7");
         House.due("THE ROOT", h.box(0), "0 0 40 15");
         joins(".k{float:left}p{margin:4}", "0 4 15 15");
-        h = shown(40, ".f{float:left}p{margin:4}", "<div class=f><div><p>a</p></div></div>");
+        h = House.shown(40, ".f{float:left}p{margin:4}", "<div class=f><div><p>a</p></div></div>");
         House.due("a BLOCK in a FLOAT joins with what is in it", h.it.box(4, 1) + " " + h.it.box(5, 1) + " " + h.it.box(4, 3), "4 4 7");
     }
 
     static void firstThing() {
         House.says(22, "TOP of the first thing in it, if that is greater, that thing a BLOCK,");
-        House h = shown(40, "p{margin:4}", "<div>t<p>a</p></div>");
+        House h = House.shown(40, "p{margin:4}", "<div>t<p>a</p></div>");
         House.due("LINES first", h.box(3), "0 0 40 18");
         House.due("its BOTTOM joins", h.it.box(0, 3), 22);
-        h = shown(40, "p{margin:4}i{float:left}", "<div><i></i><p>a</p></div>");
+        h = House.shown(40, "p{margin:4}i{float:left}", "<div><i></i><p>a</p></div>");
         House.due("a FLOAT first", h.box(3), "0 0 40 11");
-        h = shown(40, "p{margin:4}.n{display:none}", "<div><p class=n>x</p><p>a</p><i class=n>y</i></div>");
+        h = House.shown(40, "p{margin:4}.n{display:none}", "<div><p class=n>x</p><p>a</p><i class=n>y</i></div>");
         House.due("what has display none is no thing", h.box(3), "0 4 40 7");
-        h = shown(40, ".k{margin:4}", "<div class=k></div>");
+        h = House.shown(40, ".k{margin:4}", "<div class=k></div>");
         House.due("nothing in it", h.box(3), "4 4 32 0");
         House.due("both margins count", h.it.box(0, 3), 8);
-        h = shown(40, "p{margin:4}", "<div><div><div><p>a</p></div></div></div>");
+        h = House.shown(40, "p{margin:4}", "<div><div><div><p>a</p></div></div></div>");
         House.due("the first of the first", h.it.box(3, 1) + " " + h.it.box(4, 1) + " " + h.it.box(5, 1) + " " + h.it.box(6, 1), "4 4 4 4");
         House.due("the last of the last", h.it.box(0, 3), 15);
     }
@@ -311,29 +303,29 @@ public final class EdgeLayoutTest {
         joins(".k{height:0}p{margin:4}", "4 4 0 4");
         joins(".k{height:20}p{margin:4}", "4 4 20 24");
         joins(".k{height:20;margin:1}p{margin:4}", "4 4 20 25");
-        House h = shown(40, "p{margin:4}.k{margin:1}", "<div class=k><p>a</p>t</div>");
+        House h = House.shown(40, "p{margin:4}.k{margin:1}", "<div class=k><p>a</p>t</div>");
         House.due("LINES last", h.it.box(3, 3) + " " + h.it.box(0, 3), "18 23");
     }
 
     static void joinedOnce() {
         House.says(22, "TOP and BOTTOM of a thing count so for it alone: that first thing's TOP has JOINED then, whichever is greater, and it stands at the INNER y; so BOTTOM.");
-        House h = shown(40, ".k{margin:9}p{margin:4}", "<div class=k><p>a</p></div>");
+        House h = House.shown(40, ".k{margin:9}p{margin:4}", "<div class=k><p>a</p></div>");
         House.due("the lesser TOP counts no more", h.it.box(4, 1), 9);
         House.due("nor the lesser BOTTOM", h.it.box(0, 3), 25);
-        h = shown(40, "p{margin:4}", "<div><p>a</p></div><div><p>b</p></div>");
+        h = House.shown(40, "p{margin:4}", "<div><p>a</p></div><div><p>b</p></div>");
         House.due("two that joined meet", h.it.box(6, 1), 15);
         House.due("in all", h.it.box(0, 3), 26);
-        h = shown(40, "p{margin:4}", "<div><p>a</p>t<p>b</p></div>");
+        h = House.shown(40, "p{margin:4}", "<div><p>a</p>t<p>b</p></div>");
         House.due("the first thing's TOP alone", h.it.box(4, 1) + " " + h.it.word(1, 4) + " " + h.it.box(7, 1), "4 15 26");
     }
 
     static void linesOfNothingPart() {
         House.says(22, "A run of INLINE things without any ITEM makes LINES all the same (of no height): it parts margins, and is a first or last thing.");
-        House h = shown(40, "p{margin:4}", "<p>a</p><i></i><p>b</p>");
+        House h = House.shown(40, "p{margin:4}", "<p>a</p><i></i><p>b</p>");
         House.due("it parts margins", h.it.box(6, 1), 19);
-        h = shown(40, "p{margin:4}", "<div><i></i><p>a</p><i></i></div>");
+        h = House.shown(40, "p{margin:4}", "<div><i></i><p>a</p><i></i></div>");
         House.due("it is a first and a last thing", h.box(3), "0 0 40 15");
-        h = shown(40, "p{margin:4}hr{display:inline}", "<p>a</p><hr><p>b</p>");
+        h = House.shown(40, "p{margin:4}hr{display:inline}", "<p>a</p><hr><p>b</p>");
         House.says(22, "An hr that is inline in a BLOCK is an INLINE thing without any ITEM.");
         House.due("it parts too", h.it.box(6, 1), 19);
         House.due("it has no BOX", h.it.box(5, 1), -1000);
@@ -343,16 +335,16 @@ public final class EdgeLayoutTest {
 
     static void linesBehindABlock() {
         House.says(22, "DOWN a BLOCK: y begins at the INNER y. LINES begin at y, behind a BLOCK at its end and its BOTTOM, and y is their end then.");
-        House.due("at the INNER y", shown(40, "div{padding:3}", "t").places(), "3,3");
-        House.due("behind a BLOCK", shown(40, "p{margin:4}", "<p>a</p>t").places(), "4,4 0,15");
-        House.due("behind LINES", shown(40, "p{margin:4}", "t<p>a</p>").places(), "0,0 4,11");
-        House.due("behind BOTTOM that joined", shown(40, "p{margin:4}", "<div><p>a</p></div>t").places(), "4,4 0,15");
-        House.due("of no height", shown(40, "p{margin:4}", "<p></p>t").places(), "0,8");
+        House.due("at the INNER y", House.shown(40, "div{padding:3}", "t").places(), "3,3");
+        House.due("behind a BLOCK", House.shown(40, "p{margin:4}", "<p>a</p>t").places(), "4,4 0,15");
+        House.due("behind LINES", House.shown(40, "p{margin:4}", "t<p>a</p>").places(), "0,0 4,11");
+        House.due("behind BOTTOM that joined", House.shown(40, "p{margin:4}", "<div><p>a</p></div>t").places(), "4,4 0,15");
+        House.due("of no height", House.shown(40, "p{margin:4}", "<p></p>t").places(), "0,8");
     }
 
     static void theGreaterOfTwo() {
         House.says(22, "A BLOCK stands at y and its TOP (0, if JOINED); behind a BLOCK, at that one's end and the greater one of its BOTTOM and this TOP;");
-        House h = shown(40, ".k{margin:3}.m{margin:5}", "<div class=k>a</div><div class=m>b</div><div class=k>c</div><div class=k></div><div>d</div>");
+        House h = House.shown(40, ".k{margin:3}.m{margin:5}", "<div class=k>a</div><div class=m>b</div><div class=k>c</div><div class=k></div><div>d</div>");
         House.due("TOP at first", h.it.box(3, 1), 3);
         House.due("this TOP is greater", h.it.box(5, 1), 15);
         House.due("its BOTTOM is greater", h.it.box(7, 1), 27);
@@ -364,14 +356,14 @@ public final class EdgeLayoutTest {
         House.says(22, "but never above the end of a FLOAT of the same BLOCK that is ahead of it; y is its BOX's end then.");
         Object[][] rows = {{1, 2}, {2, 2}, {3, 3}, {20, 20}};
         for (Object[] row : rows) {
-            House h = shown(40, "i{float:left;width:5;height:" + row[0] + "}", "<i></i><p>a</p>");
+            House h = House.shown(40, "i{float:left;width:5;height:" + row[0] + "}", "<i></i><p>a</p>");
             House.due("a FLOAT " + row[0] + " high", h.it.box(4, 1), (Integer) row[1]);
         }
-        House h = shown(40, "i{float:left;width:5;height:5;margin:3}", "<i></i><p>a</p>");
+        House h = House.shown(40, "i{float:left;width:5;height:5;margin:3}", "<i></i><p>a</p>");
         House.due("its end is with its margin", h.it.box(4, 1), 11);
-        h = shown(40, "i{float:left;width:5;height:20}.k{height:3}", "<div class=k><i></i></div><p>a</p>");
+        h = House.shown(40, "i{float:left;width:5;height:20}.k{height:3}", "<div class=k><i></i></div><p>a</p>");
         House.due("not one of another BLOCK", h.it.box(5, 1), 5);
-        h = shown(40, "i{float:left;width:5;height:20}", "<p>a</p><i></i><p>b</p>");
+        h = House.shown(40, "i{float:left;width:5;height:20}", "<p>a</p><i></i><p>b</p>");
         House.due("not one behind it", h.it.box(3, 1), 2);
         House.due("but one ahead of it", h.it.box(6, 1), 31);
     }
@@ -384,18 +376,18 @@ public final class EdgeLayoutTest {
             {"border:1", "<i></i><p>a</p>", 25}, {"border:1", "", 2}, {"border:1", "<b></b>", 2},
         };
         for (Object[] row : rows) {
-            House h = shown(40, ".k{" + row[0] + "}i{float:left;width:4;height:10;margin:2}", "<div class=k>" + row[1] + "</div>");
+            House h = House.shown(40, ".k{" + row[0] + "}i{float:left;width:4;height:10;margin:2}", "<div class=k>" + row[1] + "</div>");
             House.due(row[0] + " with " + row[1], h.it.box(3, 3), (Integer) row[2]);
         }
     }
 
     static void lastBlocksBottom() {
         House.says(22, "\"The last BLOCK's BOTTOM\" counts if nothing but what has display none comes behind it.");
-        House h = shown(40, "p{margin:4}.k{border:1}.n{display:none}", "<div class=k><p>a</p><b class=n>x</b><p class=n>y</p></div>");
+        House h = House.shown(40, "p{margin:4}.k{border:1}.n{display:none}", "<div class=k><p>a</p><b class=n>x</b><p class=n>y</p></div>");
         House.due("what has display none behind it", h.it.box(3, 3), 17);
-        h = shown(40, "p{margin:4}.n{display:none}", "<div><p>a</p><b class=n>x</b></div>");
+        h = House.shown(40, "p{margin:4}.n{display:none}", "<div><p>a</p><b class=n>x</b></div>");
         House.due("it is the last thing, so it joins", h.it.box(3, 3), 7);
-        h = shown(40, "p{margin:4}", "<div><p>a</p><b></b></div>");
+        h = House.shown(40, "p{margin:4}", "<div><p>a</p><b></b></div>");
         House.due("with LINES behind it, it does not", h.it.box(3, 3), 11);
     }
 }

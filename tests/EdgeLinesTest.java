@@ -7,20 +7,12 @@ public final class EdgeLinesTest {
         House.run(EdgeLinesTest.class);
     }
 
-    /** The style is NODE 1, its TEXT 2: what is shown begins at 3. */
-    private static House shown(int width, String sheet, String page) {
-        House h = new House();
-        h.it.screen(width);
-        h.page("<style>" + sheet + "</style>" + page);
-        return h;
-    }
-
     private static void places(int width, String sheet, String page, String due) {
-        House.due(page + " by " + sheet + " on " + width, shown(width, sheet, page).places(), due);
+        House.due(page + " by " + sheet + " on " + width, House.shown(width, sheet, page).places(), due);
     }
 
     private static void box(int width, String sheet, String page, int n, String due) {
-        House.due(page + " by " + sheet + " on " + width, shown(width, sheet, page).box(n), due);
+        House.due(page + " by " + sheet + " on " + width, House.shown(width, sheet, page).box(n), due);
     }
 
     // ---- PIECES
@@ -32,7 +24,7 @@ public final class EdgeLinesTest {
         box(40, "img{width:0}", "<img>", 3, "0 0 0 8");
         box(40, "img{height:0}", "<img>", 3, "0 0 8 0");
         box(20, "img{width:96;height:96}", "<img>", 3, "0 0 96 96");
-        House.due("a LINE of no height", shown(40, "img{height:0}", "<img>").it.box(0, 3), 0);
+        House.due("a LINE of no height", House.shown(40, "img{height:0}", "<img>").it.box(0, 3), 0);
     }
 
     static void input() {
@@ -51,7 +43,7 @@ public final class EdgeLinesTest {
         box(40, "button{border:3;padding:20}", "<button>a</button>", 3, "0 0 50 53");
         box(40, "button{size:3}", "<button>a</button>", 3, "0 0 16 25");
         box(40, "b{size:3}", "<button>a<b>b</b></button>", 3, "0 0 12 11");
-        House h = shown(40, "b{size:1}", "<button>a<p>b</p><img></button>");
+        House h = House.shown(40, "b{size:1}", "<button>a<p>b</p><img></button>");
         House.due("a p in it", h.it.box(5, 0), -1000);
         House.due("an img in it", h.it.box(7, 0), -1000);
         House.due("no WORD of it", h.it.word(0, 0), -1000);
@@ -67,7 +59,7 @@ public final class EdgeLinesTest {
 
     static void ofNoMatter() {
         House.says(22, "Margins of PIECES on LINES, a button's width told are of no matter.");
-        House h = shown(60, "*{margin:9}div{margin:0}button{width:50}", "<img><input><button>a</button>");
+        House h = House.shown(60, "*{margin:9}div{margin:0}button{width:50}", "<img><input><button>a</button>");
         House.due("img", h.box(3), "0 3 8 8");
         House.due("input", h.box(4), "8 0 24 11");
         House.due("button", h.box(5), "32 0 8 11");
@@ -79,7 +71,7 @@ public final class EdgeLinesTest {
 
     static void sizeOfAnItem() {
         House.says(23, "Each has a size s (a WORD that of what its TEXT lies in). ITEMS come one behind the other;");
-        House h = shown(96, "b{size:3}i{size:2}", "<b>a<i>a</i></b>a<img>a");
+        House h = House.shown(96, "b{size:3}i{size:2}", "<b>a<i>a</i></b>a<img>a");
         House.due("sizes and places", h.word(0) + ", " + h.word(1) + ", " + h.word(2) + ", " + h.word(3),
                 "4 0 1 0 0 12 21, 6 0 1 12 7 8 14, 7 0 1 20 14 4 7, 9 0 1 32 14 4 7");
         House.due("a PIECE among them", h.box(8), "24 13 8 8");
@@ -87,7 +79,7 @@ public final class EdgeLinesTest {
 
     static void wordsAndPieces() {
         House.says(23, "LINES: WORDS, and PIECES:");
-        House h = shown(96, "b{size:1}", "a<span></span><img><br><input><button></button>b");
+        House h = House.shown(96, "b{size:1}", "a<span></span><img><br><input><button></button>b");
         House.due("img", h.box(5), "4 0 8 8");
         House.due("input, button", h.box(7) + ", " + h.box(8), "0 8 24 11, 24 8 4 11");
         House.due("WORDS", h.places(), "0,1 28,12");
@@ -102,9 +94,9 @@ public final class EdgeLinesTest {
         places(96, "b{size:1}", "a<b>b</b>c", "0,0 4,0 8,0");
         places(96, "b{size:1}", "a b<b>c</b>d e", "0,0 7,0 11,0 15,0 22,0");
         places(20, "b{size:1}", "aaa<b>bbb</b>", "0,0 0,7");
-        House.due("a PIECE by its own size", shown(96, "img{size:3}", "a <img>").box(4), "13 0 8 8");
-        House.due("a WORD behind a PIECE", shown(96, "img{size:3}", "<img> a").places(), "11,1");
-        House.due("a BLANK in what is not laid", shown(96, ".n{display:none}", "a<i class=n> x </i>b<button> y </button>c").places(), "0,4 4,4 16,4");
+        House.due("a PIECE by its own size", House.shown(96, "img{size:3}", "a <img>").box(4), "13 0 8 8");
+        House.due("a WORD behind a PIECE", House.shown(96, "img{size:3}", "<img> a").places(), "11,1");
+        House.due("a BLANK in what is not laid", House.shown(96, ".n{display:none}", "a<i class=n> x </i>b<button> y </button>c").places(), "0,4 4,4 16,4");
     }
 
     static void whatIsLeft() {
@@ -122,9 +114,9 @@ public final class EdgeLinesTest {
         House.says(23, NEXT_LINE);
         places(20, "b{size:3}", "<b>a</b> aaaa a", "0,0 0,21 0,28");
         places(20, "b{size:1}", "aa aaaaaa a", "0,0 0,7 0,14");
-        House h = shown(20, "img{height:30}", "a<img>aaa");
+        House h = House.shown(20, "img{height:30}", "a<img>aaa");
         House.due("its end is that of its highest", h.it.word(1, 4), 30);
-        House.due("no blank ahead of a LINE", shown(20, "b{size:1}", "aaaa aaaa").places(), "0,0 0,7");
+        House.due("no blank ahead of a LINE", House.shown(20, "b{size:1}", "aaaa aaaa").places(), "0,0 0,7");
     }
 
     static void widerThanItsLine() {
@@ -132,7 +124,7 @@ public final class EdgeLinesTest {
         places(20, "b{size:1}", "aaaaaa", "0,0");
         places(20, "b{size:1}", "aaaaaa aaaaaa", "0,0 0,7");
         places(20, "p{padding:20;margin:0}", "<p>a b</p>", "20,20 20,27");
-        House.due("an img", shown(20, "img{width:96}", "<img><img>").box(4), "0 8 96 8");
+        House.due("an img", House.shown(20, "img{width:96}", "<img><img>").box(4), "0 8 96 8");
     }
 
     static void br() {
@@ -145,17 +137,17 @@ public final class EdgeLinesTest {
         places(40, "b{size:2}", "<b><br></b>b", "0,14");
         places(40, "i{float:left;width:5;height:7}", "<i></i><br>b", "0,7");
         places(40, "i{float:left;width:5;height:8}", "<i></i><br>b", "5,7");
-        House.due("at the end", shown(40, "b{size:1}", "a<br>").it.box(0, 3), 7);
-        House.due("twice at the end", shown(40, "b{size:1}", "a<br><br>").it.box(0, 3), 14);
-        House.due("of display none", shown(40, "br{display:none}", "a<br>b").places(), "0,0 4,0");
+        House.due("at the end", House.shown(40, "b{size:1}", "a<br>").it.box(0, 3), 7);
+        House.due("twice at the end", House.shown(40, "b{size:1}", "a<br><br>").it.box(0, 3), 14);
+        House.due("of display none", House.shown(40, "br{display:none}", "a<br>b").places(), "0,0 4,0");
         House.due("a LINE of an ITEM that is 0 high and wide has one",
-                shown(40, "img{width:0;height:0}", "<img><br>b").places(), "0,0");
+                House.shown(40, "img{width:0;height:0}", "<img><br>b").places(), "0,0");
     }
 
     static void lowerEdge() {
         House.says(23, "A LINE is as high as its highest ITEM; they stand on its lower edge.");
         places(96, "b{size:3}i{size:2}", "a<b>b</b><i>c</i>", "0,14 4,0 16,7");
-        House h = shown(96, "img{height:3}", "a<img><input>");
+        House h = House.shown(96, "img{height:3}", "a<img><input>");
         House.due("a WORD", h.it.word(0, 4), 4);
         House.due("an img", h.box(4), "4 8 8 3");
         House.due("an input", h.box(5), "12 0 24 11");
@@ -171,7 +163,7 @@ public final class EdgeLinesTest {
         places(20, "div{align:center}", "aaaaa", "0,0");
         places(20, "div{align:right}", "aaa aaa", "8,0 8,7");
         places(20, "div{align:right}b{align:left}", "<b>aa</b>", "12,0");
-        House.due("PIECES and WORDS", shown(40, "div{align:right}", "a<img> b").box(4) + " " + shown(40, "div{align:right}", "a<img> b").places(), "25 0 8 8 21,1 36,1");
+        House.due("PIECES and WORDS", House.shown(40, "div{align:right}", "a<img> b").box(4) + " " + House.shown(40, "div{align:right}", "a<img> b").places(), "25 0 8 8 21,1 36,1");
         places(40, "div{align:right}i{float:right;width:10;height:7;align:left}", "<i>x</i>aa<br>bb", "30,0 22,0 32,7");
         House.says(23, "what is left is 0 at least for align.");
         places(20, "div{align:center}", "aaaaaa", "0,0");
@@ -208,7 +200,7 @@ public final class EdgeLinesTest {
         places(40, sheet, floats + "aaaaaaaaaaaa", "0,20");
         places(40, sheet, floats + "a aaaaaaaa", "10,0 0,20");
         places(40, sheet, floats + "a<br>aaaaaaaa", "10,0 0,20");
-        House.due("the LINE it stands on goes on from there", shown(40, sheet, floats + "aaaaaa a").places(), "0,10 0,17");
+        House.due("the LINE it stands on goes on from there", House.shown(40, sheet, floats + "aaaaaa a").places(), "0,10 0,17");
     }
 
     // ---- FLOATS
@@ -232,31 +224,31 @@ public final class EdgeLinesTest {
     static void itWaits() {
         House.says(22, "If its LINE has an ITEM, it waits for the LINE's end, else it is put at once, at the LINE's y,");
         String sheet = "i{float:left;width:5;height:9}b{size:2}";
-        House h = shown(40, sheet, "<i></i>aa");
+        House h = House.shown(40, sheet, "<i></i>aa");
         House.due("at once", h.box(3) + " " + h.places(), "0 0 5 9 5,0");
-        h = shown(40, sheet, "aa<i></i>bb<br>cc");
+        h = House.shown(40, sheet, "aa<i></i>bb<br>cc");
         House.due("behind its LINE", h.box(4) + " " + h.places(), "0 7 5 9 0,0 8,0 5,7");
-        h = shown(40, sheet, "aa<i></i><b>bb</b><br>cc");
+        h = House.shown(40, sheet, "aa<i></i><b>bb</b><br>cc");
         House.due("whose end comes later", h.box(4) + " " + h.places(), "0 14 5 9 0,7 8,0 5,14");
-        h = shown(40, sheet, "aa<i></i>");
+        h = House.shown(40, sheet, "aa<i></i>");
         House.due("behind the last LINE", h.box(4) + " " + h.it.box(0, 3), "0 7 5 9 16");
-        h = shown(40, sheet, "aa<br><i></i>bb");
+        h = House.shown(40, sheet, "aa<br><i></i>bb");
         House.due("behind a br", h.box(5) + " " + h.places(), "0 7 5 9 0,0 5,7");
-        h = shown(40, sheet, "aa<i></i><i></i>bb<p>c</p>");
+        h = House.shown(40, sheet, "aa<i></i><i></i>bb<p>c</p>");
         House.due("two of them", h.box(4) + " " + h.box(5), "0 7 5 9 5 7 5 9");
         House.due("a BLOCK behind them", h.it.box(7, 1), 16);
-        h = shown(40, sheet, "<span></span><i></i>a");
+        h = House.shown(40, sheet, "<span></span><i></i>a");
         House.due("an ELEMENT is no ITEM", h.box(4) + " " + h.places(), "0 0 5 9 5,0");
     }
 
     static void notAboveAnEarlierOne() {
         House.says(22, "but not above an earlier FLOAT's y (all with margins):");
         String sheet = ".a{float:left;width:30;height:10}.b{float:left;width:20;height:5}.c{float:right;width:5;height:5}.m{margin:2}";
-        House h = shown(40, sheet, "<i class=a></i><i class=b></i><i class=c></i>aa");
+        House h = House.shown(40, sheet, "<i class=a></i><i class=b></i><i class=c></i>aa");
         House.due("the second below the first", h.box(4), "0 10 20 5");
         House.due("the third not above it", h.box(5), "35 10 5 5");
         House.due("the LINE stays", h.places(), "30,0");
-        h = shown(44, sheet, "<i class=a></i><i class='b m'></i><i class=c></i>");
+        h = House.shown(44, sheet, "<i class=a></i><i class='b m'></i><i class=c></i>");
         House.due("with a margin", h.box(4), "2 12 20 5");
         House.due("not above its margin", h.box(5), "39 10 5 5");
     }
@@ -282,7 +274,7 @@ public final class EdgeLinesTest {
     static void leftAndRight() {
         House.says(22, "Left ones stand at the left edge there, right ones at the right.");
         String sheet = "p{margin:0;padding:2}.l{float:left}.r{float:right}i{width:5;height:5;margin:1}";
-        House h = shown(40, sheet, "<p><i class=l></i><i class=r></i><i class=l></i><i class=r></i></p>");
+        House h = House.shown(40, sheet, "<p><i class=l></i><i class=r></i><i class=l></i><i class=r></i></p>");
         House.due("left", h.box(4), "3 3 5 5");
         House.due("right", h.box(5), "32 3 5 5");
         House.due("left of the second", h.box(6), "10 3 5 5");
@@ -291,20 +283,20 @@ public final class EdgeLinesTest {
 
     static void laidLikeABlock() {
         House.says(22, "it is laid like a BLOCK (TOP and BOTTOM not JOINED with anything outside).");
-        House h = shown(40, "i{float:left;width:20}p{margin:4}", "<div><i><p>a</p></i></div>b");
+        House h = House.shown(40, "i{float:left;width:20}p{margin:4}", "<div><i><p>a</p></i></div>b");
         House.due("the FLOAT", h.box(4), "0 0 20 15");
         House.due("what is in it", h.box(5), "4 4 12 7");
         House.due("what is around it", h.box(3), "0 0 40 15");
-        h = shown(40, "i{float:left;width:20;height:3;padding:1}", "<i>a a a a</i>b");
+        h = House.shown(40, "i{float:left;width:20;height:3;padding:1}", "<i>a a a a</i>b");
         House.due("a height told", h.box(3), "0 0 20 3");
         House.due("its LINES", h.places(), "1,1 8,1 15,1 1,8 20,0");
     }
 
     static void endWithMargin() {
         House.says(22, "The end of a FLOAT is with its margin wherever it counts.");
-        House h = shown(40, "i{float:left;width:5;height:5;margin:2}", "<i></i>");
+        House h = House.shown(40, "i{float:left;width:5;height:5;margin:2}", "<i></i>");
         House.due("the height of what it lies in", h.it.box(0, 3), 9);
-        h = shown(20, "i{float:left;width:10;height:5;margin:2}", "<i></i><i></i>");
+        h = House.shown(20, "i{float:left;width:10;height:5;margin:2}", "<i></i><i></i>");
         House.due("another one below", h.box(4), "2 11 10 5");
         places(20, "i{float:left;width:10;height:5;margin:2}", "<i></i>aaa", "0,9");
     }
@@ -319,7 +311,7 @@ public final class EdgeLinesTest {
             {"a<b></b>b", "8"}, {"a<p>b</p>c", "12"}, {"<b>a</b> <b>b</b>", "8"}, {"a<br>b", "8"}, {"<style>a b</style>", "11"},
         };
         for (String[] row : rows) {
-            House.due("button of [" + row[0] + "]", shown(96, sheet, "<button>" + row[0] + "</button>").it.box(3, 2), Integer.parseInt(row[1]));
+            House.due("button of [" + row[0] + "]", House.shown(96, sheet, "<button>" + row[0] + "</button>").it.box(3, 2), Integer.parseInt(row[1]));
         }
         box(96, "button{size:3;border:0;padding:0}", "<button>a b</button>", 3, "0 0 33 21");
         box(96, "i{float:left;size:2}b{size:1}", "<i>a <b>b</b></i>", 3, "0 0 22 14");
@@ -329,19 +321,19 @@ public final class EdgeLinesTest {
 
     static void flexSideBySide() {
         House.says(22, "FLEX: its ELEMENTS that have not display none (TEXTS and br are left out) stand side by side,");
-        House h = shown(40, ".f{display:flex}.n{display:none}", "<div class=f>t<b>a</b><br><i class=n>b</i>u<p>c</p></div>");
+        House h = House.shown(40, ".f{display:flex}.n{display:none}", "<div class=f>t<b>a</b><br><i class=n>b</i>u<p>c</p></div>");
         House.due("an inline one", h.box(5), "0 0 4 7");
         House.due("br", h.it.box(7, 0), -1000);
         House.due("of display none", h.it.box(8, 0), -1000);
         House.due("a p", h.box(11), "6 2 4 7");
         House.due("no WORD of its TEXTS", h.places(), "0,0 6,2");
-        House.due("nothing in it", shown(40, ".f{display:flex}", "<div class=f></div>").box(3), "0 0 40 0");
-        House.due("a TEXT alone", shown(40, ".f{display:flex}", "<div class=f>t<br></div>").box(3), "0 0 40 0");
+        House.due("nothing in it", House.shown(40, ".f{display:flex}", "<div class=f></div>").box(3), "0 0 40 0");
+        House.due("a TEXT alone", House.shown(40, ".f{display:flex}", "<div class=f>t<br></div>").box(3), "0 0 40 0");
     }
 
     static void flexPieces() {
         House.says(22, "img, input, button as wide and high as PIECES, others each laid like a BLOCK, each with its margin around, from the INNER left edge at the INNER y;");
-        House h = shown(40, ".f{display:flex;padding:2;border:1}.m{margin:3}", "<div class=f><img class=m><input><button>a</button><b class=m>a</b><hr></div>");
+        House h = House.shown(40, ".f{display:flex;padding:2;border:1}.m{margin:3}", "<div class=f><img class=m><input><button>a</button><b class=m>a</b><hr></div>");
         House.due("img", h.box(4), "6 6 8 8");
         House.due("input", h.box(5), "17 3 24 11");
         House.due("button", h.box(6), "41 3 8 11");
@@ -352,20 +344,20 @@ public final class EdgeLinesTest {
 
     static void flexWidths() {
         House.says(22, "WIDTH that told, else as its text in one line with border and padding. HEIGHT: that told, else the highest one with its margins.");
-        House h = shown(40, ".f{display:flex;padding:4}b{width:50%}", "<div class=f><b>a</b></div>");
+        House h = House.shown(40, ".f{display:flex;padding:4}b{width:50%}", "<div class=f><b>a</b></div>");
         House.due("the half of 32", h.box(4), "4 4 16 7");
-        h = shown(40, ".f{display:flex}b{width:0;padding:2}", "<div class=f><b>a</b></div>");
+        h = House.shown(40, ".f{display:flex}b{width:0;padding:2}", "<div class=f><b>a</b></div>");
         House.due("at least its padding", h.box(4), "0 0 4 11");
-        h = shown(20, ".f{display:flex}b{padding:1;border:1}", "<div class=f><b>aaa aaa</b><b></b></div>");
+        h = House.shown(20, ".f{display:flex}b{padding:1;border:1}", "<div class=f><b>aaa aaa</b><b></b></div>");
         House.due("its text, wider than the FLEX", h.box(4), "0 0 31 11");
         House.due("no text", h.box(6), "31 0 4 4");
-        h = shown(40, ".f{display:flex;height:5}b{margin:2}", "<div class=f><b>a</b></div>");
+        h = House.shown(40, ".f{display:flex;height:5}b{margin:2}", "<div class=f><b>a</b></div>");
         House.due("a height told", h.box(3), "0 0 40 5");
-        h = shown(40, ".f{display:flex;height:0;border:1}b{margin:2}", "<div class=f><b>a</b></div>");
+        h = House.shown(40, ".f{display:flex;height:0;border:1}b{margin:2}", "<div class=f><b>a</b></div>");
         House.due("at least its border", h.box(3), "0 0 40 2");
-        h = shown(40, ".f{display:flex}b{margin:20}i{margin:0;height:46}", "<div class=f><b>a</b><i></i></div>");
+        h = House.shown(40, ".f{display:flex}b{margin:20}i{margin:0;height:46}", "<div class=f><b>a</b><i></i></div>");
         House.due("the highest with its margins", h.box(3), "0 0 40 47");
-        h = shown(40, ".f{display:flex}b{margin:20}i{margin:0;height:48}", "<div class=f><b>a</b><i></i></div>");
+        h = House.shown(40, ".f{display:flex}b{margin:20}i{margin:0;height:48}", "<div class=f><b>a</b><i></i></div>");
         House.due("another is higher", h.box(3), "0 0 40 48");
     }
 }

@@ -6,14 +6,6 @@ public final class EdgePictureTest {
         House.run(EdgePictureTest.class);
     }
 
-    /** The style is NODE 1, its TEXT 2: what is shown begins at 3. */
-    private static House shown(int width, String sheet, String page) {
-        House h = new House();
-        h.it.screen(width);
-        h.page("<style>" + sheet + "</style>" + page);
-        return h;
-    }
-
     /** Points row by row: . for 0, # for 63, letters for 1 and so on. */
     private static String rows(House h, int x, int y, int columns, int lines) {
         StringBuilder all = new StringBuilder();
@@ -52,7 +44,7 @@ public final class EdgePictureTest {
 
     static void pointOfNone() {
         House.says(24, "A point of THE PICTURE; NONE if it is not in it.");
-        House h = shown(20, "div{background:5}", "a");
+        House h = House.shown(20, "div{background:5}", "a");
         House.due("the first", h.it.point(0, 0), 5);
         House.due("the last", h.it.point(19, 6), 5);
         int[][] beside = {
@@ -70,7 +62,7 @@ public final class EdgePictureTest {
 
     static void topOfNone() {
         House.says(25, "The NODE ON TOP of a point; NONE if nothing is painted there, or it is not in THE PICTURE.");
-        House h = shown(20, "p{margin:1}", "<p>a</p>");
+        House h = House.shown(20, "p{margin:1}", "<p>a</p>");
         House.due("the first", h.it.top(0, 0), 0);
         House.due("the last", h.it.top(19, 8), 0);
         int[][] beside = {
@@ -86,7 +78,7 @@ public final class EdgePictureTest {
         House.says(24, "THE PICTURE is as high as THE ROOT's BOX, at most 400; a point has 0 .. 63; 0 where nothing is painted.");
         int[][] rows = {{15, 399}, {16, 400}, {17, 400}, {96, 400}};
         for (int[] row : rows) {
-            House h = shown(20, "div{background:63}p{margin:0;height:96}.m{height:" + row[0] + "}", "<p></p><p></p><p></p><p></p><p class=m></p>");
+            House h = House.shown(20, "div{background:63}p{margin:0;height:96}.m{height:" + row[0] + "}", "<p></p><p></p><p></p><p></p><p class=m></p>");
             House.due("THE ROOT's BOX", h.it.box(0, 3), 384 + row[0]);
             House.due("THE PICTURE's height", h.it.count(14), row[1]);
             House.due("its last row", h.it.point(0, row[1] - 1), 63);
@@ -95,7 +87,7 @@ public final class EdgePictureTest {
             House.due("on top below", h.it.top(0, row[1]), -1);
             House.due("a press below", h.it.press(0, row[1]), -1);
         }
-        House h = shown(20, "p{height:2;margin:0}i{display:block;background:0;height:1}.k{background:63}", "<p></p><p class=k><i></i></p>");
+        House h = House.shown(20, "p{height:2;margin:0}i{display:block;background:0;height:1}.k{background:63}", "<p></p><p class=k><i></i></p>");
         House.due("0 where nothing is, 0 that is told, 63", rows(h, 0, 0, 1, 4), "./././#");
     }
 
@@ -103,49 +95,49 @@ public final class EdgePictureTest {
 
     static void boxes() {
         House.says(24, "BOXES: BACKGROUND (if it has one) over the whole BOX, then the border, as wide as told, in color;");
-        House h = shown(20, "p{margin:1;width:6;height:5;border:1;background:1;color:2}", "<p></p>");
+        House h = House.shown(20, "p{margin:1;width:6;height:5;border:1;background:1;color:2}", "<p></p>");
         House.due("a border of 1", rows(h, 0, 0, 8, 7), "......../.bbbbbb./.baaaab./.baaaab./.baaaab./.bbbbbb./........");
-        h = shown(20, "p{margin:1;width:6;height:5;border:2;background:1;color:2}", "<p></p>");
+        h = House.shown(20, "p{margin:1;width:6;height:5;border:2;background:1;color:2}", "<p></p>");
         House.due("a border of 2", rows(h, 0, 0, 8, 7), "......../.bbbbbb./.bbbbbb./.bbaabb./.bbbbbb./.bbbbbb./........");
-        h = shown(20, "p{margin:1;width:6;height:6;border:3;background:1;color:2}", "<p></p>");
+        h = House.shown(20, "p{margin:1;width:6;height:6;border:3;background:1;color:2}", "<p></p>");
         House.due("a border that is all", rows(h, 0, 0, 8, 8), "......../" + ".bbbbbb./".repeat(6) + "........");
-        h = shown(20, "p{margin:1;width:6;height:5;border:1;color:2}", "<p></p>");
+        h = House.shown(20, "p{margin:1;width:6;height:5;border:1;color:2}", "<p></p>");
         House.due("no BACKGROUND", rows(h, 0, 0, 8, 7), "......../.bbbbbb./.b....b./.b....b./.b....b./.bbbbbb./........");
-        h = shown(20, "p{margin:1;width:6;height:5;padding:1;background:1}", "<p></p>");
+        h = House.shown(20, "p{margin:1;width:6;height:5;padding:1;background:1}", "<p></p>");
         House.due("padding is of the BOX", rows(h, 0, 0, 8, 7), "......../.aaaaaa./.aaaaaa./.aaaaaa./.aaaaaa./.aaaaaa./........");
-        h = shown(20, "p{margin:1;width:0;height:0;background:1}", "<p></p>a");
+        h = House.shown(20, "p{margin:1;width:0;height:0;background:1}", "<p></p>a");
         House.due("0 by 0 is nothing", rows(h, 0, 0, 4, 2), "..../....");
-        h = shown(20, "b{border:1;background:1}", "<b>a</b>");
+        h = House.shown(20, "b{border:1;background:1}", "<b>a</b>");
         House.due("inline ones have no BOX", h.it.point(0, 0), 0);
     }
 
     static void eachAheadOfWhatLiesInIt() {
         House.says(24, "Painted are, NODE by NODE of what has a place, each ahead of what lies in it,");
-        House h = shown(20, "div{background:1}p{margin:0;height:3;background:2}b{float:left;width:2;height:5;background:3}i{display:block;width:3;background:4;height:1}", "<b></b><p><i></i></p>");
+        House h = House.shown(20, "div{background:1}p{margin:0;height:3;background:2}b{float:left;width:2;height:5;background:3}i{display:block;width:3;background:4;height:1}", "<b></b><p><i></i></p>");
         House.due("FLOAT, BLOCK, what is in that", rows(h, 0, 4, 4, 5), "ccaa/dddb/bbbb/bbbb/!!!!");
-        h = shown(20, ".k{height:2}p{margin:0;height:4;background:2}", "<div class=k><p></p></div><div class=k></div>");
+        h = House.shown(20, ".k{height:2}p{margin:0;height:4;background:2}", "<div class=k><p></p></div><div class=k></div>");
         House.due("what goes out of its BOX", rows(h, 0, 0, 1, 4), "b/b/b/b");
-        h = shown(20, ".k{height:2}p{margin:0;height:4;background:2}.m{background:3;height:2}", "<div class=k><p></p></div><div class=m></div>");
+        h = House.shown(20, ".k{height:2}p{margin:0;height:4;background:2}.m{background:3;height:2}", "<div class=k><p></p></div><div class=m></div>");
         House.due("the next one over it", rows(h, 0, 0, 1, 4), "b/b/c/c");
     }
 
     static void img() {
         House.says(24, "PIECES: img all in color;");
-        House h = shown(20, "img{width:2;height:2;color:2;border:1;background:1}", "<img>");
+        House h = House.shown(20, "img{width:2;height:2;color:2;border:1;background:1}", "<img>");
         House.due("no border, no BACKGROUND", rows(h, 0, 0, 3, 2), "bb./bb.");
-        h = shown(20, "img{width:0;color:2}", "<img>");
+        h = House.shown(20, "img{width:0;color:2}", "<img>");
         House.due("0 wide", rows(h, 0, 0, 1, 8), "./././././././.");
     }
 
     static void likeBoxes() {
         House.says(24, "input and button: like BOXES, then the input's VALUE (below),");
-        House h = shown(20, "input{width:6;border:1;background:1;color:2}", "<input>");
+        House h = House.shown(20, "input{width:6;border:1;background:1;color:2}", "<input>");
         House.due("an input", rows(h, 0, 0, 7, 12), "bbbbbb./" + "baaaab./".repeat(9) + "bbbbbb./!!!!!!!");
-        h = shown(20, "button{border:1;padding:1;background:1;color:2}", "<button></button>");
+        h = House.shown(20, "button{border:1;padding:1;background:1;color:2}", "<button></button>");
         House.due("a button", rows(h, 0, 0, 5, 12), "bbbb./" + "baab./".repeat(9) + "bbbb./!!!!!");
-        h = shown(20, "input{width:4;border:3;background:1;color:2}", "<input value=a>");
+        h = House.shown(20, "input{width:4;border:3;background:1;color:2}", "<input value=a>");
         House.due("a border that is all", rows(h, 0, 0, 5, 11), ("bbbb./").repeat(10) + "bbbb.");
-        h = shown(20, "input{border:0}button{border:0}", "<input><button></button>");
+        h = House.shown(20, "input{border:0}button{border:0}", "<input><button></button>");
         House.due("nothing of them shows", rows(h, 0, 4, 20, 1), "....................");
     }
 
@@ -153,36 +145,36 @@ public final class EdgePictureTest {
 
     static void valueGoesInWholly() {
         House.says(24, TEXT_IN_PIECES);
-        House h = shown(20, "input{width:10}", "<input value=ab>");
+        House h = House.shown(20, "input{width:10}", "<input value=ab>");
         House.due("a", shown(h, 1, 1, 'a', 1), glyph('a', 1));
         House.due("b goes in just", shown(h, 5, 1, 'b', 1), glyph('b', 1));
-        h = shown(20, "input{width:9;border:0}", "<input value=abi>");
+        h = House.shown(20, "input{width:9;border:0}", "<input value=abi>");
         House.due("a third byte is one too much", rows(h, 8, 0, 1, 7), "././././././.");
-        h = shown(20, "input{width:9}", "<input value=ab>");
+        h = House.shown(20, "input{width:9}", "<input value=ab>");
         House.due("one less: a alone", rows(h, 5, 2, 3, 5), ".../.../.../.../...");
-        h = shown(20, "input{width:8;border:0}", "<input value=ami>");
+        h = House.shown(20, "input{width:8;border:0}", "<input value=ami>");
         House.due("from the first on that does not, nothing", rows(h, 4, 0, 4, 7), "..../..../..../..../..../..../....");
-        h = shown(20, "input{width:0;border:0}", "<input value=a>");
+        h = House.shown(20, "input{width:0;border:0}", "<input value=a>");
         House.due("no room at all", rows(h, 0, 0, 4, 7), "..../..../..../..../..../..../....");
     }
 
     static void blanksInValues() {
         House.says(24, TEXT_IN_PIECES);
-        House h = shown(20, "input{border:0;width:18}", "<input value=' a  b'>");
+        House h = House.shown(20, "input{border:0;width:18}", "<input value=' a  b'>");
         House.due("a behind one", shown(h, 3, 0, 'a', 1), glyph('a', 1));
         House.due("b behind two", shown(h, 13, 0, 'b', 1), glyph('b', 1));
         House.due("they show nothing", rows(h, 7, 0, 6, 7), "....../....../....../....../....../....../......");
-        h = shown(20, "input{border:0;width:10}", "<input value='a b'>");
+        h = House.shown(20, "input{border:0;width:10}", "<input value='a b'>");
         House.due("b has no room", rows(h, 7, 0, 4, 7), "..../..../..../..../..../..../....");
-        h = shown(20, "input{border:0;width:6}", "<input value='a i'>");
+        h = House.shown(20, "input{border:0;width:6}", "<input value='a i'>");
         House.due("a blank that has none, and what is behind it", rows(h, 4, 0, 6, 7), "....../....../....../....../....../....../......");
     }
 
     static void sBelowTheUpperEdge() {
         House.says(24, "An input's VALUE and a button's text stand s below the upper edge of the INNER rectangle, as GLYPHS on a LINE do.");
-        House h = shown(40, "input{border:1;padding:2;size:2}", "<input value=a>");
+        House h = House.shown(40, "input{border:1;padding:2;size:2}", "<input value=a>");
         House.due("an input", shown(h, 3, 3, 'a', 2), glyph('a', 2));
-        h = shown(40, "button{border:1;padding:2;size:2}", "<button>a</button>");
+        h = House.shown(40, "button{border:1;padding:2;size:2}", "<button>a</button>");
         House.due("a button", shown(h, 3, 3, 'a', 2), glyph('a', 2));
         House.due("its rim", h.it.point(0, 10), 63);
         House.due("within its rim", h.it.point(1, 10), 0);
@@ -190,7 +182,7 @@ public final class EdgePictureTest {
 
     static void buttonsText() {
         House.says(24, "the button's text (its text in one line),");
-        House h = shown(40, "button{border:0;padding:0}b{size:3;color:1}.n{display:none}", "<button> a\n<b> b</b><i class=n>c</i></button>");
+        House h = House.shown(40, "button{border:0;padding:0}b{size:3;color:1}.n{display:none}", "<button> a\n<b> b</b><i class=n>c</i></button>");
         House.due("a", shown(h, 0, 0, 'a', 1), glyph('a', 1));
         House.due("b behind one blank, by the button's size and color", shown(h, 7, 0, 'b', 1), glyph('b', 1));
         House.due("c whatever its display", shown(h, 11, 0, 'c', 1), glyph('c', 1));
@@ -199,7 +191,7 @@ public final class EdgePictureTest {
 
     static void eachHasItsOwn() {
         House.says(24, TEXT_IN_PIECES);
-        House h = shown(40, "button{border:0;padding:0}input{border:1;padding:1;width:12}p{margin:3}", "<p>i<button>ab</button><button> c</button><br>i<input value=d></p>");
+        House h = House.shown(40, "button{border:0;padding:0}input{border:1;padding:1;width:12}p{margin:3}", "<p>i<button>ab</button><button> c</button><br>i<input value=d></p>");
         House.due("the first button", shown(h, 5, 3, 'a', 1) + shown(h, 9, 3, 'b', 1), glyph('a', 1) + glyph('b', 1));
         House.due("the second", shown(h, 13, 3, 'c', 1), glyph('c', 1));
         House.due("an input below, beside a WORD", h.box(11) + " " + shown(h, 7, 12, 'd', 1), "5 10 12 11 " + glyph('d', 1));
@@ -207,7 +199,7 @@ public final class EdgePictureTest {
 
     static void bytesThatWent() {
         House.says(24, "then the input's VALUE (below),");
-        House h = shown(40, "input{border:0}", "<input value=am>");
+        House h = House.shown(40, "input{border:0}", "<input value=am>");
         h.it.press(1, 1);
         h.it.key(8);
         House.due("a stays", shown(h, 0, 0, 'a', 1), glyph('a', 1));
@@ -218,14 +210,14 @@ public final class EdgePictureTest {
 
     static void checkedOnes() {
         House.says(24, "a checked one (below) has all of its INNER in color, and no VALUE;");
-        House h = shown(20, "input{width:8;border:1;padding:1;color:2;background:1}", "<input type=check checked value=m>");
+        House h = House.shown(20, "input{width:8;border:1;padding:1;color:2;background:1}", "<input type=check checked value=m>");
         String rim = "bbbbbbbb/baaaaaab/";
         House.due("checked", rows(h, 0, 0, 8, 11), rim + "babbbbab/".repeat(7) + "baaaaaab/bbbbbbbb");
-        h = shown(20, "input{width:8;border:1;padding:1;color:2;background:1}", "<input type=check>");
+        h = House.shown(20, "input{width:8;border:1;padding:1;color:2;background:1}", "<input type=check>");
         House.due("not checked", rows(h, 0, 0, 8, 11), rim + "baaaaaab/".repeat(7) + "baaaaaab/bbbbbbbb");
-        h = shown(20, "input{width:4;border:1;padding:1;color:2;background:1}", "<input type=check checked>");
+        h = House.shown(20, "input{width:4;border:1;padding:1;color:2;background:1}", "<input type=check checked>");
         House.due("an INNER of 0", rows(h, 0, 0, 4, 4), "bbbb/baab/baab/baab");
-        h = shown(20, "input{width:8;border:0}", "<input checked value=a>");
+        h = House.shown(20, "input{width:8;border:0}", "<input checked value=a>");
         House.due("checked, but no check", shown(h, 0, 0, 'a', 1), glyph('a', 1));
     }
 
@@ -240,18 +232,18 @@ public final class EdgePictureTest {
         }
         for (int size = 2; size <= 3; size++) {
             for (char c : "im~!".toCharArray()) {
-                House h = shown(20, "b{size:" + size + "}", "<b>" + c + "</b>");
+                House h = House.shown(20, "b{size:" + size + "}", "<b>" + c + "</b>");
                 House.due("GLYPH " + c + " of size " + size, shown(h, 0, 0, c, size), glyph(c, size));
             }
         }
-        House h = shown(40, "p{margin:3}", "<p>a mi</p>");
+        House h = House.shown(40, "p{margin:3}", "<p>a mi</p>");
         House.due("from the WORD's left edge", shown(h, 10, 3, 'm', 1), glyph('m', 1));
         House.due("one behind the other", shown(h, 15, 3, 'i', 1), glyph('i', 1));
     }
 
     static void wordsInColor() {
         House.says(24, "WORDS in color.");
-        House h = shown(20, "div{color:0;background:63}b{color:1}", "a<b>a</b>");
+        House h = House.shown(20, "div{color:0;background:63}b{color:1}", "a<b>a</b>");
         House.due("color 0 over 63", h.it.point(0, 2), 0);
         House.due("where it is off", h.it.point(0, 1), 63);
         House.due("its own color", h.it.point(4, 2), 1);
@@ -261,7 +253,7 @@ public final class EdgePictureTest {
 
     static void onTop() {
         House.says(25, "ON TOP of a point is the last BOX or ITEM painted there (each over all of its rectangle, whatever it shows): its NODE (of a WORD its TEXT).");
-        House h = shown(20, "p{margin:1;padding:1}", "<p>a <b>i</b></p>");
+        House h = House.shown(20, "p{margin:1;padding:1}", "<p>a <b>i</b></p>");
         House.due("the margin", h.it.top(0, 1), 0);
         House.due("the BOX's corner", h.it.top(1, 1), 3);
         House.due("the WORD's corner", h.it.top(2, 2), 4);
@@ -273,11 +265,11 @@ public final class EdgePictureTest {
         House.due("below it", h.it.top(9, 9), 3);
         House.due("the BOX's last point", h.it.top(18, 9), 3);
         House.due("behind that", h.it.top(19, 9), 0);
-        h = shown(20, "img{width:0}input{width:10}p{margin:0;height:0}", "<img><input><p></p>");
+        h = House.shown(20, "img{width:0}input{width:10}p{margin:0;height:0}", "<img><input><p></p>");
         House.due("0 wide is nowhere", h.it.top(0, 5), 4);
-        h = shown(40, "b{size:1}", "<button>a<i>b</i></button>");
+        h = House.shown(40, "b{size:1}", "<button>a<i>b</i></button>");
         House.due("what lies in a button is not laid", h.it.top(6, 5), 3);
-        h = shown(20, ".k{height:2}.m{height:7}", "<div class=k>a</div><div class=m></div>");
+        h = House.shown(20, ".k{height:2}.m{height:7}", "<div class=k>a</div><div class=m></div>");
         House.due("what is painted later", h.it.top(0, 2), 5);
         House.due("what is painted earlier", h.it.top(0, 1), 4);
     }

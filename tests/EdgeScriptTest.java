@@ -6,15 +6,9 @@ public final class EdgeScriptTest {
         House.run(EdgeScriptTest.class);
     }
 
-    private static House paged(String page) {
-        House h = new House();
-        h.page(page);
-        return h;
-    }
-
     /** How many STEPS are run of a script on a page with a b of id x, and how many are WRONG. */
     private static void steps(String script, int run, int wrong) {
-        House h = paged("<b id=x>o</b>");
+        House h = House.paged("<b id=x>o</b>");
         House.due("run of [" + script + "]", h.script(script), run);
         House.due("WRONG of [" + script + "]", h.it.count(11), wrong);
     }
@@ -90,26 +84,26 @@ public final class EdgeScriptTest {
         steps("text 9 v", 0, 1);
         steps("text abcdefghi v", 0, 1);
         steps("class y k;add y b;del y;val y v;get y /a;read y n", 0, 6);
-        House h = paged("<b id=abcdefgh>o</b>");
+        House h = House.paged("<b id=abcdefgh>o</b>");
         House.due("a NAME of 8", h.script("text abcdefgh v"), 1);
-        h = paged("<b id=abcdefghi>o</b>");
+        h = House.paged("<b id=abcdefghi>o</b>");
         House.due("an id of 9 is none", h.script("text abcdefgh v"), 0);
-        h = paged("<p><b id=x></b></p><i id=x></i>");
+        h = House.paged("<p><b id=x></b></p><i id=x></i>");
         h.script("text x v");
         House.due("the first one", h.tree(), "<div><p><b id=\"x\">v</b></p><i id=\"x\"></i></div>");
         h.script("del x;text x w");
         House.due("then the next", h.tree(), "<div><p></p><i id=\"x\">w</i></div>");
-        h = paged("<b id=self></b>");
+        h = House.paged("<b id=self></b>");
         h.script("text self v");
         House.due("self is never an id", h.tree(), "<div>v</div>");
-        h = paged("<b id=x onpress='text self v'>a</b>");
+        h = House.paged("<b id=x onpress='text self v'>a</b>");
         h.it.press(1, 1);
         House.due("the LISTENER's NODE", h.name(2), "v");
     }
 
     static void values() {
         House.says(28, "VALUE: all up to the next ; or the end, one blank ahead of it.");
-        House h = paged("<b id=x>o</b>");
+        House h = House.paged("<b id=x>o</b>");
         h.script("text x a b ;stop");
         House.due("up to the ;", h.name(2), "a b ");
         h.script("text x  a");
@@ -138,7 +132,7 @@ public final class EdgeScriptTest {
 
     static void cutValues() {
         House.says(28, "VALUES of text are cut to 400 bytes, those of ATTRIBUTES to 60.");
-        House h = paged("<b id=x>o</b>");
+        House h = House.paged("<b id=x>o</b>");
         h.script("text x " + "v".repeat(400));
         House.due("400", h.it.node(2, 5), 400);
         h.script("text x " + "v".repeat(401));
@@ -154,7 +148,7 @@ public final class EdgeScriptTest {
 
     static void passedOverIsRun() {
         House.says(28, "What is passed over, not being WRONG, is run and counted.");
-        House h = paged("<br id=x><i id=y a b c></i>");
+        House h = House.paged("<br id=x><i id=y a b c></i>");
         House.due("all of them", h.script("text x v;add x b;del self;val y v;class y k;go A;get y A"), 7);
         House.due("none is WRONG", h.it.count(11), 0);
         House.due("nothing is done", h.tree(), "<div><br id=\"x\"><i id=\"y\" a=\"\" b=\"\" c=\"\"></i></div>");
@@ -165,30 +159,30 @@ public final class EdgeScriptTest {
 
     static void text() {
         House.says(28, "text: all in I goes, one TEXT comes (of no bytes: none; of an EMPTY TAG, or 20 deep: passed over);");
-        House h = paged("<p id=x>a<b>b</b><i>c</i></p>");
+        House h = House.paged("<p id=x>a<b>b</b><i>c</i></p>");
         h.script("text x v");
         House.due("one TEXT", h.tree(), "<div><p id=\"x\">v</p></div>");
         h.script("text x ");
         House.due("of no bytes", h.it.node(1, 2), 0);
         for (String tag : "br hr img input".split(" ")) {
-            h = paged("<" + tag + " id=x>");
+            h = House.paged("<" + tag + " id=x>");
             h.script("text x v");
             House.due(tag, h.it.node(1, 2), 0);
         }
-        h = paged("<b>".repeat(18) + "<i id=x>");
+        h = House.paged("<b>".repeat(18) + "<i id=x>");
         h.script("text x v");
         House.due("19 deep", h.it.node(19, 2), 1);
-        h = paged("<b>".repeat(19) + "<i id=x>");
+        h = House.paged("<b>".repeat(19) + "<i id=x>");
         h.script("text x v");
         House.due("20 deep", h.it.node(20, 2), 0);
-        h = paged("<p id=x>a</p>");
+        h = House.paged("<p id=x>a</p>");
         h.script("text self v");
         House.due("all in THE ROOT", h.tree(), "<div>v</div>");
     }
 
     static void textWithoutRoom() {
         House.says(28, "A TEXT that would come into an ELEMENT in which nothing lies is passed over when there are 120 NODES.");
-        House h = paged("<i id=x></i><b id=y>q</b><u id=z><s></s></u>" + "<br>".repeat(114));
+        House h = House.paged("<i id=x></i><b id=y>q</b><u id=z><s></s></u>" + "<br>".repeat(114));
         House.due("120", h.it.count(0), 120);
         h.script("text x v");
         House.due("nothing lies in it", h.it.node(1, 2), 0);
@@ -203,7 +197,7 @@ public final class EdgeScriptTest {
 
     static void classes() {
         House.says(28, "class: its ATTRIBUTE class is that (a fifth ATTRIBUTE: passed over);");
-        House h = paged("<b id=x a b></b><i id=y a b c></i><u id=z a b class=k></u>");
+        House h = House.paged("<b id=x a b></b><i id=y a b c></i><u id=z a b class=k></u>");
         h.script("class x k;class y k;class z m");
         House.due("a fourth", h.out(h.attribute(1, "class")), "k");
         House.due("four", h.it.node(1, 4), 4);
@@ -218,7 +212,7 @@ public final class EdgeScriptTest {
 
     static void add() {
         House.says(28, "add: an ELEMENT of that NAME comes last in I (of an EMPTY TAG, or without room as in Part IV: passed over);");
-        House h = paged("<p id=x>a</p>");
+        House h = House.paged("<p id=x>a</p>");
         h.script("add x b;add x abcdefgh");
         House.due("last", h.tree(), "<div><p id=\"x\">a<b></b><abcdefgh></abcdefgh></p></div>");
         steps("add x abcdefghi", 0, 1);
@@ -227,28 +221,28 @@ public final class EdgeScriptTest {
         steps("add x ", 0, 1);
         steps("add x", 0, 1);
         for (String tag : "br hr img input".split(" ")) {
-            h = paged("<" + tag + " id=x>");
+            h = House.paged("<" + tag + " id=x>");
             House.due("to " + tag, h.script("add x b"), 1);
             House.due("none came to " + tag, h.it.count(0), 2);
         }
-        h = paged("<b>".repeat(18) + "<i id=x>");
+        h = House.paged("<b>".repeat(18) + "<i id=x>");
         h.script("add x u");
         House.due("20 deep", h.it.node(20, 1), 19);
-        h = paged("<b>".repeat(19) + "<i id=x>");
+        h = House.paged("<b>".repeat(19) + "<i id=x>");
         h.script("add x u");
         House.due("21 deep", h.it.count(0), 21);
-        h = paged("<br>".repeat(118));
+        h = House.paged("<br>".repeat(118));
         h.script("add self hr;add self u");
         House.due("the 120th", h.it.node(119, 0), 11);
         House.due("no more", h.it.count(0), 120);
-        h = paged("<p id=x>a<div id=y>b</div>");
+        h = House.paged("<p id=x>a<div id=y>b</div>");
         h.script("add y p;add y p");
         House.due("it closes nothing", h.tree(), "<div><p id=\"x\">a</p><div id=\"y\">b<p></p><p></p></div></div>");
     }
 
     static void del() {
         House.says(28, "del: I goes with all in it (THE ROOT: passed over);");
-        House h = paged("<p id=x>a<b>b</b></p>c");
+        House h = House.paged("<p id=x>a<b>b</b></p>c");
         House.due("del", h.script("del x"), 1);
         House.due("all in it", h.it.count(0), 2);
         House.due("THE ROOT", h.script("del self"), 1);
@@ -258,7 +252,7 @@ public final class EdgeScriptTest {
 
     static void val() {
         House.says(28, "val: an input's VALUE (cut to 24).");
-        House h = paged("<input id=x><input id=y type=check checked>");
+        House h = House.paged("<input id=x><input id=y type=check checked>");
         h.script("val x " + "v".repeat(24));
         House.due("24", h.value(1), "v".repeat(24));
         h.script("val x " + "w".repeat(25));
@@ -268,7 +262,7 @@ public final class EdgeScriptTest {
         h.script("val y v");
         House.due("of a check", h.value(2) + " " + h.it.checked(2), "v 1");
         House.says(28, "val of what is no input is passed over (run, and counted).");
-        h = paged("<b id=x>o</b>");
+        h = House.paged("<b id=x>o</b>");
         House.due("run", h.script("val x v"), 1);
         House.due("nothing is done", h.tree(), "<div><b id=\"x\">o</b></div>");
     }
@@ -288,7 +282,7 @@ public final class EdgeScriptTest {
 
     static void get() {
         House.says(28, "get: the REFERENCE is FETCHED (NO ADDRESS: passed over); if the last ADDRESS FOLLOWED has this page's SITE, or that answer is open, as text with the BODY's first 200 bytes, else the REFUSAL is counted;");
-        House h = paged("<b id=x>o</b>");
+        House h = House.paged("<b id=x>o</b>");
         h.server("//home/a\n" + "v".repeat(200));
         h.server("//home/b\n" + "v".repeat(200) + "w");
         h.server("//home/c\n");
@@ -324,7 +318,7 @@ public final class EdgeScriptTest {
 
     static void getWithoutRoom() {
         House.says(28, "or that answer is open, as text with the BODY's first 200 bytes,");
-        House h = paged("<br id=x>");
+        House h = House.paged("<br id=x>");
         h.server("//home/a\nv");
         House.due("of an EMPTY TAG", h.script("get x a"), 1);
         House.due("FETCHED all the same", h.it.count(5), 1);
@@ -336,7 +330,7 @@ public final class EdgeScriptTest {
 
     static void stores() {
         House.says(28, "put, read: the SITE's STORE (NAMES to NAMES, 20 in all; full ones pass it over): it is put; as text with it (nothing, if there is none).");
-        House h = paged("<b id=x>o</b>");
+        House h = House.paged("<b id=x>o</b>");
         h.script("read x a");
         House.due("none", h.it.node(1, 2), 0);
         h.script("put a abcdefgh;read x a");
@@ -415,7 +409,7 @@ public final class EdgeScriptTest {
 
     static void sixtyBytes() {
         House.says(28, "SCRIPT: the STEP behind wait (perhaps of no bytes behind the NUMBER's blank: nothing is done then) is cut to 60 bytes first, read when its time has come, and WRONG, counted then.");
-        House h = paged("<b id=x>o</b>");
+        House h = House.paged("<b id=x>o</b>");
         h.script("wait 0 text x " + "v".repeat(53));
         h.it.tick(0);
         House.due("60 bytes", h.it.node(2, 5), 53);
@@ -442,7 +436,7 @@ public final class EdgeScriptTest {
 
     static void tasksInOrder() {
         House.says(11, "TASKS are done by tick(), those whose time has come, by time, then as they came (also such as come meanwhile).");
-        House h = paged("<b id=x>o</b>");
+        House h = House.paged("<b id=x>o</b>");
         h.script("wait 2 text x a;wait 1 text x b;wait 2 text x c;wait 3 text x d");
         h.it.tick(1);
         House.due("at 1", h.name(2), "b");
@@ -459,7 +453,7 @@ public final class EdgeScriptTest {
 
     static void selfOfTasks() {
         House.says(11, "A TASK whose self went is done all the same, and counted.");
-        House h = paged("<b id=x onpress='wait 1 text self v;wait 1 put a v'>a</b>");
+        House h = House.paged("<b id=x onpress='wait 1 text self v;wait 1 put a v'>a</b>");
         h.it.press(1, 1);
         h.script("del x;add self b");
         House.due("both", h.it.tick(1), 2);
@@ -487,14 +481,14 @@ public final class EdgeScriptTest {
 
     static void stop() {
         House.says(28, "stop: the EVENT goes no further up, and has no DEFAULT (the script goes on).");
-        House h = paged("<a href=/y onpress='put a v'><b onpress='stop;put b v'>x</b></a>");
+        House h = House.paged("<a href=/y onpress='put a v'><b onpress='stop;put b v'>x</b></a>");
         h.it.press(1, 1);
         House.due("no further up, no DEFAULT", h.it.count(15) + " " + h.it.count(7), "1 1");
         House.due("where there is no EVENT", h.script("stop;put c v"), 2);
-        h = paged("<a href=/y><b onpress='wait 1 stop'>x</b></a>");
+        h = House.paged("<a href=/y><b onpress='wait 1 stop'>x</b></a>");
         h.it.press(1, 1);
         House.due("a TASK is too late", h.address(), "//home/y");
-        h = paged("<a href=/y><b onpress='stop '>x</b></a>");
+        h = House.paged("<a href=/y><b onpress='stop '>x</b></a>");
         h.it.press(1, 1);
         House.due("a WRONG one stops nothing", h.address(), "//home/y");
     }
@@ -525,7 +519,7 @@ public final class EdgeScriptTest {
         House.due("by the 199th one more is run", h.it.count(15), 1);
         h.script("stop;".repeat(200) + "go /b");
         House.due("the 201st", h.address(), "//home/a");
-        h = paged("<b id=x>o</b>");
+        h = House.paged("<b id=x>o</b>");
         h.server("//home/a\nv");
         h.script("stop;".repeat(199) + "get x a");
         House.due("a get by the 200th", h.name(2), "v");
@@ -538,11 +532,11 @@ public final class EdgeScriptTest {
         for (int i = 0; i < 13; i++) {
             page.append("<b onpress='").append(fifteen).append("'>");
         }
-        House h = paged(page + "x");
+        House h = House.paged(page + "x");
         h.it.press(1, 1);
         House.due("200 WRONG ones", h.it.count(11), 200);
         House.due("no DEFAULT", h.address(), "//home/");
-        h = paged(page.toString().replace("'a;a;a;a;a'", "'a;a;a;a'") + "x");
+        h = House.paged(page.toString().replace("'a;a;a;a;a'", "'a;a;a;a'") + "x");
         h.it.press(1, 1);
         House.due("199", h.it.count(11), 199);
         House.due("the DEFAULT", h.address(), "//home/y");

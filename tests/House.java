@@ -105,6 +105,21 @@ final class House {
         }
     }
 
+    /** A new one with a page. */
+    static House paged(String page) {
+        House h = new House();
+        h.page(page);
+        return h;
+    }
+
+    /** A new one with a page on a SCREEN: its style is NODE 1, the TEXT of that 2, and what is shown begins at 3. */
+    static House shown(int width, String sheet, String page) {
+        House h = new House();
+        h.it.screen(width);
+        h.page("<style>" + sheet + "</style>" + page);
+        return h;
+    }
+
     /** The bytes of a text onto THE TAPE, in place of what was there. */
     House tape(String text) {
         it.end(0);
