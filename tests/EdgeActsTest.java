@@ -257,6 +257,10 @@ public final class EdgeActsTest {
         h = House.paged("<a href='A'><b>a</b></a><p>");
         h.it.press(1, 1);
         House.due("a NO ADDRESS is the DEFAULT all the same", h.it.count(7), 1);
+        h = House.paged("<style>a{display:block}a a{width:9;height:9}</style><a href=/y><div id=x></div></a>");
+        h.script("add x a");
+        House.due("an a without href in one with it", h.it.press(1, 1), 5);
+        House.due("goes on to that", h.address(), "//home/y");
     }
 
     static void defaultsOfWhatIsThere() {

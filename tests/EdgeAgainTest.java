@@ -159,6 +159,18 @@ public final class EdgeAgainTest {
         House.due("nor of a PATH", h.out(h.resolve("?q")), "//shop/a/b?q");
     }
 
+    static void onePageBehindTheOther() {
+        House.says(5, "SEGMENTS with / between, one at least and the first one not empty (in place of the base's last one);");
+        for (String before : new String[] {"//home/a/b/c", "//home/ab/c/d", "//home/a/", "//home/abc/d", "//home///", "//home/a?q#k"}) {
+            House h = new House();
+            h.visit(before);
+            h.visit("//home/a");
+            House.due("nothing of the longer " + before, h.out(h.resolve("c")), "//home/c");
+            House.due("nor of its PATH", h.out(h.resolve("#m")), "//home/a#m");
+            House.due("nor further up", h.out(h.resolve("../c/.")), "//home/c/");
+        }
+    }
+
     static void sitesOfEight() {
         House.says(7, "COOKIES: of a SITE, a NAME and a VALUE (a NAME), at most 20 in all;");
         House h = new House();

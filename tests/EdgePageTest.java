@@ -94,6 +94,7 @@ public final class EdgePageTest {
         reads("<b '='>'>x</b>", "<b '=\"&gt;\">x</b>", "");
         reads("<b <>x</b>", "<b <=\"\">x</b>", "");
         reads("<b A9-_.X=y>x</b>", "<b a9-_.x=\"y\">x</b>", "");
+        reads("<b @AZ[=y>x</b>", "<b @az[=\"y\">x</b>", "");
         reads("<b abcdefgh=1>x</b>", "<b abcdefgh=\"1\">x</b>", "");
         reads("<b ABCDEFGHI=1>x</b>", "<b abcdefgh=\"1\">x</b>", "");
         reads("<b a/=y>x</b>", "<b a=\"\" ==\"\">x</b>".replace("==\"\"", "=y=\"\""), "");

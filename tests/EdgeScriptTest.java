@@ -71,6 +71,11 @@ public final class EdgeScriptTest {
         steps(";stop", 1, 0);
         steps("zip;;zip", 0, 2);
         steps("x", 0, 1);
+        for (int length = 0; length <= 70; length++) {
+            steps(" ".repeat(length), 0, 0);
+            steps(" ".repeat(length) + "sto", 0, 1);
+            steps("\n".repeat(length) + "stop", 1, 0);
+        }
         House h = new House();
         h.script(" ;".repeat(210) + "stop");
         House.due("they do not count to 200 either", h.it.count(12), 1);
