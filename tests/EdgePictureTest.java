@@ -239,6 +239,10 @@ public final class EdgePictureTest {
         House h = House.shown(40, "p{margin:3}", "<p>a mi</p>");
         House.due("from the WORD's left edge", shown(h, 10, 3, 'm', 1), glyph('m', 1));
         House.due("one behind the other", shown(h, 15, 3, 'i', 1), glyph('i', 1));
+        h = House.shown(40, "b{size:2}", "a<br>b cd<br><b>e</b>");
+        House.due("on the second LINE", shown(h, 0, 7, 'b', 1), glyph('b', 1));
+        House.due("in its second WORD", shown(h, 11, 7, 'd', 1), glyph('d', 1));
+        House.due("on the third", shown(h, 0, 14, 'e', 2), glyph('e', 2));
     }
 
     static void wordsInColor() {
