@@ -21,6 +21,17 @@ public final class EdgeOthersTest {
         }
     }
 
+    static void dotsAheadOfATail() {
+        House.says(5, "if the last one went so, an empty one comes in its place;");
+        House h = new House();
+        for (String tail : new String[] {"?", "?q", "#m", "?.#m", "?..", "?a=b.#m"}) {
+            House.due(".. ahead of " + tail, h.out(h.resolve("/a/b/.." + tail)), "//home/a/" + tail);
+            House.due(". ahead of " + tail, h.out(h.resolve("c/." + tail)), "//home/c/" + tail);
+            House.due("with a SITE, ahead of " + tail, h.out(h.resolve("//s/.." + tail)), "//s/" + tail);
+            House.due("no PATH ahead of " + tail, h.out(h.resolve("//s" + tail)), "//s/" + tail);
+        }
+    }
+
     static void signsInFields() {
         House.says(6, "FIELDS, each at most once: age= NUMBER; cookie= NAME : NAME; to= REFERENCE (against the ADDRESS); open.");
         String[] none = {"cookie:a:b", "cookie a:b", "cookies=a:b", "cookie=a=b", "cookie=a:b:c", "opex", "ope", "opens", "open=", "age:1", "age1", "ages=1", "to:a", "to", "tos=a"};
@@ -125,6 +136,15 @@ public final class EdgeOthersTest {
         House.due("at the right edge of 0", h.box(3), "18 23 5 5");
         h = House.shown(20, "div{padding:20;border:3;align:right}", "a");
         House.due("nothing is left", h.places(), "23,23");
+    }
+
+    static void sizesInOneLine() {
+        House.says(22, "all by the size s of that ELEMENT whose text it is (also in THE PICTURE).");
+        String sheet = "div{size:3}.f{display:flex;size:1}b,p,button{size:2;margin:0}p{float:left}";
+        House h = House.shown(90, sheet, "<div class=f><b>a<i>c d</i></b></div>");
+        House.due("in a FLEX", h.box(4), "0 0 30 14");
+        House.due("a FLOAT", House.shown(90, sheet, "<p>ab</p>").box(3), "0 0 16 14");
+        House.due("a button", House.shown(90, sheet, "<button>ab</button>").box(3), "0 0 20 18");
     }
 
     static void noneInAFlex() {
@@ -250,6 +270,8 @@ public final class EdgeOthersTest {
         House.due("the first", h.word(0), "6 0 3 0 0 12 7");
         House.due("the second", h.word(1), "3 0 3 0 7 13 7");
         House.due("its NODE", h.it.top(1, 8), 3);
+        House ended = renumbered("img{width:2}", "<i id=z></i><img>", "text z two ");
+        House.due("the blank at its end", ended.word(0) + "/" + ended.box(6), "3 0 3 0 1 13 7/16 0 2 8");
         House fresh = House.shown(40, "p{margin:0;color:3}div{color:5}", "<p>one</p><div>two</div>");
         for (int x = 0; x < 20; x++) {
             for (int y = 0; y < 14; y++) {
